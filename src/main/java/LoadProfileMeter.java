@@ -62,7 +62,7 @@ public final class LoadProfileMeter {
     }
 
     /** Promise 7. */
-    public int entry(int i, int k) throws IndexOutOfBoundsException, java.util.NoSuchElementException {
+    public int entry(int i, int k) throws IndexOutOfBoundsException, NoSuchElementException {
         if (i < 0 || i >= meter.profile.size) {
             throw new IndexOutOfBoundsException();
         }
@@ -522,6 +522,7 @@ public final class LoadProfileMeter {
         private static final int CLOCK = 0;
         private static final int REGISTERS = 3;
         private static final int PROFILE = 4;
+        private static final int LATEST_TIME = 0x7FFFFFFF;
 
         private static final int ARRAY = 1;
         private static final int STRUCTURE = 2;
@@ -556,7 +557,7 @@ public final class LoadProfileMeter {
         }
 
         void passSecond() {
-            now = now == Integer.MAX_VALUE ? 0 : now + 1;
+            now = now == LATEST_TIME ? 0 : now + 1;
             if (profile.period != 0 && now % profile.period == 0) {
                 profile.capture(now, registers);
             }

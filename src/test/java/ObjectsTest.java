@@ -120,6 +120,8 @@ public final class ObjectsTest {
         c.act(4, 2, 0);
         c.set(0, 2, 6, Integer.MAX_VALUE);
         c.act(4, 2, 0);
+        Check.due("all of them", c.get(4, 2),
+            196, 1, 0, 1, 2, 2, 2, 6, 0, 0, 0, 0, 5, 0, 0, 0, 0, 2, 2, 6, 127, 255, 255, 255, 5, 0, 0, 0, 0);
         Check.due("from 0 to 0", c.ask(192, 1, 4, 2, 1, 0, 0, 0, 0, 0, 0, 0, 0),
             196, 1, 0, 1, 1, 2, 2, 6, 0, 0, 0, 0, 5, 0, 0, 0, 0);
         Check.due("from 1 to the greatest", c.ask(192, 1, 4, 2, 1, 0, 0, 0, 1, 255, 255, 255, 255),
