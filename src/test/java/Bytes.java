@@ -1,4 +1,4 @@
-/** Frames as the document writes them, made apart from the program. */
+/** Bytes as the document writes them, made apart from the program. */
 final class Bytes {
     private static final int[] TABLE = table();
 
@@ -27,20 +27,22 @@ final class Bytes {
     }
 
     static int[] frame(int control, int... payload) {
-        return payload.length == 0 ? bare(control) : framed(control, payload);
+        return payload.length == 0 ? bare(5, 17, control) : full(payload.length + 7, 17, control, payload);
     }
 
-    private static int[] bare(int control) {
-        int[] frame = {126, 5, 17, control, 0, 0, 126};
+    /** With any n and address, and a check that holds. */
+    static int[] bare(int n, int address, int control) {
+        int[] frame = {126, n, address, control, 0, 0, 126};
         putCheck(frame, 4);
         return frame;
     }
 
-    private static int[] framed(int control, int[] payload) {
+    /** With any n, address and payload (also none, also too long), and both checks hold. */
+    static int[] full(int n, int address, int control, int... payload) {
         int[] frame = new int[payload.length + 9];
         frame[0] = 126;
-        frame[1] = payload.length + 7;
-        frame[2] = 17;
+        frame[1] = n;
+        frame[2] = address;
         frame[3] = control;
         putCheck(frame, 4);
         System.arraycopy(payload, 0, frame, 6, payload.length);
@@ -49,14 +51,39 @@ final class Bytes {
         return frame;
     }
 
-    /** What is no frame, though both its checks hold. */
-    static int[] frameWithEmptyPayload(int control) {
-        return framed(control, new int[0]);
-    }
-
-    private static void putCheck(int[] frame, int at) {
+    /** Two bytes become the check of those between the first one and them. */
+    static void putCheck(int[] frame, int at) {
         int check = check(frame, 1, at);
         frame[at] = check % 256;
         frame[at + 1] = check / 256;
+    }
+
+    static int[] repeated(int b, int times) {
+        int[] bytes = new int[times];
+        java.util.Arrays.fill(bytes, b);
+        return bytes;
+    }
+
+    static int[] joined(int[]... parts) {
+        return java.util.Arrays.stream(parts).flatMapToInt(java.util.Arrays::stream).toArray();
+    }
+
+    /** A tag and the four bytes of a number. */
+    static int[] tagged(int tag, int v) {
+        return new int[] {tag, v >>> 24, v >>> 16 & 255, v >>> 8 & 255, v & 255};
+    }
+
+    /** The value of the profile's attribute 3. */
+    static int[] columns(int... registers) {
+        int[] value = {1, registers.length};
+        for (int o : registers) {
+            value = joined(value, new int[] {17, o});
+        }
+        return value;
+    }
+
+    /** The answer to getting a value of at most 40 bytes. */
+    static int[] got(int... value) {
+        return joined(new int[] {196, 1, 0}, value);
     }
 }

@@ -7,8 +7,16 @@ final class Check {
     }
 
     private static int wrong = 0;
+    private static int sentences = 0;
+    private static String sentence = "";
 
     private Check() {
+    }
+
+    /** The checks that follow are about these words of the document, that stand there. */
+    static void sentence(String where, String words) {
+        sentence = where + ", \"" + words + "\": ";
+        sentences++;
     }
 
     static void due(String what, long got, long want) {
@@ -35,11 +43,12 @@ final class Check {
 
     private static void tell(String text) {
         wrong++;
-        System.out.println(text);
+        System.out.println(sentence + text);
     }
 
     static void end() {
-        System.out.println(wrong == 0 ? "all answers are as due" : wrong + " answers are not as due");
+        String about = sentences == 0 ? "" : " for " + sentences + " sentences";
+        System.out.println((wrong == 0 ? "all answers are as due" : wrong + " answers are not as due") + about);
         if (wrong != 0) {
             System.exit(1);
         }

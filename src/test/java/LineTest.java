@@ -1,216 +1,335 @@
-/** Promises 9 to 14: what comes on the line. The line is read off by what is delivered. */
+/** Promises 9 to 14 and the terms of the line: a method for each sentence. */
 public final class LineTest {
+    private static final int MAX = Integer.MAX_VALUE;
+    private static final int MIN = Integer.MIN_VALUE;
+    private static final int[] NO_BYTES = {-1, 256, -128, 257, MIN, MAX};
+
     public static void main(String[] args) {
-        putting();
-        puttingWrongBytes();
-        puttingInts();
-        poking();
-        framing();
-        framesAreKnownByEveryByte();
-        framingWrongly();
-        asking();
-        askingWrongly();
+        bothAreEmptyAtFirst();
+        putBehindTheLine();
+        putOfNoByte();
+        putWhenThereAre80();
+        putIntBehindTheLine();
+        putIntHasTheHighestByteFirst();
+        putIntBeyond80();
+        pokeOfAByte();
+        pokeWhereThereIsNone();
+        pokeOfNoByte();
+        frameOfThePayload();
+        frameOfAnEmptyLine();
+        frameOfNoControl();
+        frameOfMoreThan60();
+        askByTheNumbers();
+        askOfAnEmptyLine();
+        askOfMoreThan60();
         clearing();
         Check.end();
     }
 
-    private static void fill(LoadProfileMeter m, int number) {
+    private static CountedMeter newMeter() {
+        return new CountedMeter(1, 1);
+    }
+
+    private static void fill(CountedMeter m, int number) {
         for (int i = 0; i < number; i++) {
             m.put(7);
         }
     }
 
-    private static void putting() {
-        LoadProfileMeter m = new LoadProfileMeter(1, 1);
-        for (int i = 1; i <= 80; i++) {
-            Check.due("put to " + i, m.put(i % 2 == 0 ? 0 : 255), i);
-        }
-        Check.refused("put of the 81st", IllegalStateException.class, () -> m.put(0));
-        Check.refused("put of a wrong 81st", IllegalArgumentException.class, () -> m.put(256));
-        m.clear();
-        Check.due("put after clear()", m.put(0), 1);
+    private static int poke(CountedMeter m, int i, int b) {
+        m.poke(i, b);
+        return 0;
     }
 
-    private static void puttingWrongBytes() {
-        LoadProfileMeter m = new LoadProfileMeter(1, 1);
-        for (int b : new int[] {-1, 256, Integer.MIN_VALUE, Integer.MAX_VALUE}) {
+    private static void bothAreEmptyAtFirst() {
+        Check.sentence("Terms", "both are empty at first");
+        CountedMeter m = newMeter();
+        Check.refused("reply(0)", IndexOutOfBoundsException.class, () -> m.reply(0));
+        Check.refused("poke(0, 0)", IndexOutOfBoundsException.class, () -> poke(m, 0, 0));
+        Check.refused("ask()", IllegalStateException.class, m::ask);
+        Check.due("deliver(false)", m.deliver(false), 0);
+        Check.due("the first put", m.put(0), 1);
+        Check.due("the first frame", newMeter().frame(147), 7);
+    }
+
+    // ---- promise 9
+
+    private static void putBehindTheLine() {
+        Check.sentence("Promise 9", "A byte comes behind the line: how many there are");
+        CountedMeter m = newMeter();
+        int[] frame = Bytes.frame(147);
+        for (int i = 0; i < frame.length; i++) {
+            Check.due("put of byte " + i, m.put(frame[i]), i + 1);
+        }
+        Check.due("a frame that was put", m.deliver(false), 7);
+        Check.due("put behind a delivered line", m.put(0), 1);
+        m.clear();
+        m.frame(0);
+        Check.due("put behind a frame", m.put(0), 8);
+    }
+
+    private static void putOfNoByte() {
+        Check.sentence("Promise 9", "IllegalArgumentException when b is not 0 .. 255");
+        CountedMeter m = newMeter();
+        for (int b : NO_BYTES) {
             Check.refused("put(" + b + ")", IllegalArgumentException.class, () -> m.put(b));
         }
-        Check.due("put(255) after refused ones", m.put(255), 1);
+        Check.due("put(0)", m.put(0), 1);
+        Check.due("put(255)", m.put(255), 2);
     }
 
-    private static void puttingInts() {
-        LoadProfileMeter m = new LoadProfileMeter(1, 1);
-        for (int i = 4; i <= 76; i += 4) {
+    private static void putWhenThereAre80() {
+        Check.sentence("Promise 9", "IllegalStateException when there are 80");
+        CountedMeter m = newMeter();
+        for (int i = 1; i <= 80; i++) {
+            Check.due("put of number " + i, m.put(i % 2 == 0 ? 0 : 255), i);
+        }
+        Check.refused("put of number 81", IllegalStateException.class, () -> m.put(0));
+        Check.refused("put of number 81 again", IllegalStateException.class, () -> m.put(255));
+        m.clear();
+        Check.due("put after clear()", m.put(0), 1);
+        fill(m, 79);
+        Check.refused("put of number 81 once more", IllegalStateException.class, () -> m.put(0));
+        m.deliver(false);
+        Check.due("put after deliver()", m.put(0), 1);
+    }
+
+    // ---- promise 10
+
+    private static void putIntBehindTheLine() {
+        Check.sentence("Promise 10", "The four bytes of v come behind the line: how many there are");
+        CountedMeter m = newMeter();
+        for (int i = 4; i <= 80; i += 4) {
             Check.due("putInt to " + i, m.putInt(i), i);
         }
-        m.put(0);
-        Check.refused("putInt behind 77", IllegalStateException.class, () -> m.putInt(0));
-        Check.due("nothing came of it", m.put(0), 78);
-        Check.refused("putInt behind 78", IllegalStateException.class, () -> m.putInt(0));
-        m.put(0);
-        Check.refused("putInt behind 79", IllegalStateException.class, () -> m.putInt(0));
-        m.put(0);
-        Check.refused("putInt behind 80", IllegalStateException.class, () -> m.putInt(0));
         m.clear();
-        fill(m, 76);
-        Check.due("putInt behind 76", m.putInt(0), 80);
-        highestByteComesFirst();
+        Check.due("put", m.put(9), 1);
+        Check.due("putInt behind one byte", m.putInt(-1), 5);
+        Check.due("put behind it", m.put(9), 6);
     }
 
-    private static void highestByteComesFirst() {
+    private static void putIntHasTheHighestByteFirst() {
+        Check.sentence("Terms", "numbers of several bytes have the highest one first");
+        CountedMeter m = newMeter();
+        m.putInt(0x7E051193);
+        m.put(42);
+        m.put(213);
+        m.put(126);
+        Check.due("a frame with its first four bytes by putInt", m.deliver(false), 7);
         Client c = Client.manager(1);
-        c.put(193, 1, 2, 5);
-        c.meter.putInt(0x81020384);
-        c.meter.ask();
-        c.deliver();
-        Check.due("register from putInt", c.meter.register(1), 0x81020384);
-        c.set(1, 2, new int[] {5, 0x81, 2, 3, 0x84});
-        Check.due("register from bytes", c.meter.register(1), 0x81020384);
+        for (int v : new int[] {0x81020384, -1, 0, 1, 255, 256, 65535, 65536, 1 << 24, MIN, MAX}) {
+            c.put(193, 1, 2, 5);
+            c.meter.putInt(v);
+            c.meter.ask();
+            c.meter.deliver(false);
+            Check.due("register by putInt", c.meter.register(1), v);
+            c.tell(193, 1, 2, 5, v >>> 24, v >> 16 & 255, v >> 8 & 255, v & 255);
+            Check.due("register by bytes", c.meter.register(1), v);
+        }
     }
 
-    private static void poking() {
-        LoadProfileMeter m = new LoadProfileMeter(1, 1);
-        Check.refused("poke(0, 0) of an empty line", IndexOutOfBoundsException.class, () -> poke(m, 0, 0));
-        Check.refused("poke(0, 256) of an empty line", IndexOutOfBoundsException.class, () -> poke(m, 0, 256));
-        m.frame(147);
-        Check.refused("poke(-1, 0)", IndexOutOfBoundsException.class, () -> poke(m, -1, 0));
-        Check.refused("poke(7, 0)", IndexOutOfBoundsException.class, () -> poke(m, 7, 0));
-        Check.refused("poke(7, -1)", IndexOutOfBoundsException.class, () -> poke(m, 7, -1));
-        Check.refused("poke(6, -1)", IllegalArgumentException.class, () -> poke(m, 6, -1));
-        Check.refused("poke(0, 256)", IllegalArgumentException.class, () -> poke(m, 0, 256));
-        m.poke(0, 255);
-        m.poke(6, 0);
-        m.poke(6, 126);
-        m.poke(0, 126);
-        Check.due("a frame after all pokes", m.deliver(false), 7);
+    private static void putIntBeyond80() {
+        Check.sentence("Promise 10", "IllegalStateException when there would be more than 80");
+        for (int size = 75; size <= 80; size++) {
+            CountedMeter m = newMeter();
+            fill(m, size);
+            if (size <= 76) {
+                Check.due("putInt behind " + size, m.putInt(0), size + 4);
+            } else {
+                Check.refused("putInt behind " + size, IllegalStateException.class, () -> m.putInt(0));
+                m.clear();
+                fill(m, 76);
+                Check.due("putInt behind 76 after a refused one", m.putInt(0), 80);
+            }
+        }
+    }
+
+    // ---- promise 11
+
+    private static void pokeOfAByte() {
+        Check.sentence("Promise 11", "Byte i of the line becomes b");
+        int[] frame = Bytes.frame(147);
+        for (int i = 0; i < frame.length; i++) {
+            CountedMeter m = newMeter();
+            for (int k = 0; k < frame.length; k++) {
+                m.put(k == i ? frame[k] ^ 1 : frame[k]);
+            }
+            m.poke(i, frame[i]);
+            Check.due("a frame by poke(" + i + ", " + frame[i] + ")", m.deliver(false), 7);
+            m.frame(147);
+            m.poke(i, frame[i] ^ 128);
+            Check.due("no frame by poke(" + i + ", ...)", m.deliver(false), 0);
+        }
+        CountedMeter m = newMeter();
         m.put(0);
         m.poke(0, 255);
         Check.due("a poke makes the line no longer", m.put(0), 2);
     }
 
-    private static int poke(LoadProfileMeter m, int i, int b) {
-        m.poke(i, b);
-        return 0;
-    }
-
-    private static void framing() {
-        LoadProfileMeter m = new LoadProfileMeter(1, 1);
-        Check.due("frame(147) of an empty line", m.frame(147), 7);
-        Check.due("frame of a frame", m.frame(0), 16);
-        m.clear();
-        fill(m, 60);
-        Check.due("frame of 60", m.frame(255), 69);
-        framesWithWrittenBytes();
-        for (int size = 1; size <= 60; size++) {
-            Client c = Client.connected(1);
-            int[] payload = new int[size];
-            java.util.Arrays.fill(payload, 126);
-            Check.due("answer to " + size + " bytes", c.ask(payload), 216, 2);
-        }
-    }
-
-    /** These bytes were worked out outside the program. */
-    private static void framesWithWrittenBytes() {
-        Client c = new Client(1);
-        c.put(126, 5, 17, 147, 42, 213, 126);
-        Check.due("reply to a written frame", c.deliver(), 126, 5, 17, 115, 36, 50, 126);
-        c.put(126, 8, 17, 16, 198, 156, 98, 216, 134, 126);
-        Check.due("reply to a written payload", c.deliver(), 126, 8, 17, 48, 196, 189, 99, 81, 151, 126);
-    }
-
-    private static void framesAreKnownByEveryByte() {
-        for (int size = 0; size <= 3; size++) {
-            int length = size == 0 ? 7 : 9 + size;
-            for (int i = 0; i < length; i++) {
-                for (int bit = 0; bit < 8; bit++) {
-                    Client c = new Client(1);
-                    fill(c.meter, size);
-                    c.meter.frame(size == 0 ? 147 : 16);
-                    int[] frame = bytesOf(size);
-                    c.meter.poke(i, frame[i] ^ 1 << bit);
-                    Check.due("deliver with byte " + i + " spoilt of " + size, c.meter.deliver(false), 0);
-                    Check.due("link() then", c.meter.link(), 0);
-                }
+    private static void pokeWhereThereIsNone() {
+        Check.sentence("Promise 11", "IndexOutOfBoundsException when there is none");
+        for (int size : new int[] {0, 1, 7, 79, 80}) {
+            CountedMeter m = newMeter();
+            fill(m, 80);
+            m.clear();
+            fill(m, size);
+            for (int i : new int[] {-1, size, size + 1, 81, MIN, MAX}) {
+                Check.refused("poke(" + i + ", 0) of " + size, IndexOutOfBoundsException.class, () -> poke(m, i, 0));
+            }
+            if (size > 0) {
+                m.poke(0, 0);
+                m.poke(size - 1, 0);
             }
         }
-        framesOfOtherLengths();
-    }
-
-    private static int[] bytesOf(int size) {
-        int[] payload = new int[size];
-        java.util.Arrays.fill(payload, 7);
-        return Bytes.frame(size == 0 ? 147 : 16, payload);
-    }
-
-    private static void framesOfOtherLengths() {
-        Client c = Client.connected(1);
-        int[] longest = new int[61];
-        c.put(Bytes.frame(16, longest));
-        Check.due("a frame with 61 bytes", c.meter.deliver(false), 0);
-        c.put(Bytes.frame(16, new int[60]));
-        Check.due("a frame with 60 bytes", c.meter.deliver(false), 11);
-        c.put(Bytes.frameWithEmptyPayload(147));
-        Check.due("a frame with a second check alone", c.meter.deliver(false), 0);
-        c.put(Bytes.frame(147));
-        c.put(126);
-        Check.due("a frame with a byte behind it", c.meter.deliver(false), 0);
-        c.put(126);
-        c.put(Bytes.frame(147));
-        Check.due("a frame with a byte ahead", c.meter.deliver(false), 0);
-        for (int size = 0; size < 7; size++) {
-            c.put(java.util.Arrays.copyOf(Bytes.frame(147), size));
-            Check.due("the first " + size + " of a frame", c.meter.deliver(false), 0);
-        }
-    }
-
-    private static void framingWrongly() {
-        LoadProfileMeter m = new LoadProfileMeter(1, 1);
-        for (int control : new int[] {-1, 256, Integer.MIN_VALUE, Integer.MAX_VALUE}) {
-            Check.refused("frame(" + control + ")", IllegalArgumentException.class, () -> m.frame(control));
-        }
-        fill(m, 61);
-        Check.refused("frame of 61", IllegalStateException.class, () -> m.frame(0));
-        Check.refused("wrong frame of 61", IllegalArgumentException.class, () -> m.frame(256));
-        Check.due("the line is as it was", m.put(0), 62);
-    }
-
-    private static void asking() {
-        Client c = Client.connected(1);
-        c.put(98);
-        Check.due("ask() of one byte", c.meter.ask(), 10);
-        Check.due("reply to S 0, R 0", Client.controlOf(c.deliver()), 16 + 32);
-        for (int i = 1; i < 20; i++) {
-            c.put(98);
-            c.meter.ask();
-            int[] reply = c.deliver();
-            Check.due("reply to S, R " + i, Client.controlOf(reply), 16 + 2 * (i % 8) + 32 * ((i + 1) % 8));
-        }
-        fill(c.meter, 60);
-        Check.due("ask() of 60", c.meter.ask(), 69);
-    }
-
-    private static void askingWrongly() {
-        LoadProfileMeter m = new LoadProfileMeter(1, 1);
-        Check.refused("ask() of an empty line", IllegalStateException.class, m::ask);
-        Check.due("the line is empty still", m.put(7), 1);
-        fill(m, 60);
-        Check.refused("ask() of 61", IllegalStateException.class, m::ask);
-        Check.due("the line has 61 still", m.put(7), 62);
-    }
-
-    private static void clearing() {
-        LoadProfileMeter m = new LoadProfileMeter(1, 1);
-        m.clear();
-        fill(m, 80);
-        m.clear();
-        Check.due("put after clear()", m.put(1), 1);
-        m.clear();
+        CountedMeter m = newMeter();
         m.frame(147);
         m.deliver(false);
-        m.put(3);
+        Check.refused("poke(0, 0) of a delivered line", IndexOutOfBoundsException.class, () -> poke(m, 0, 0));
+    }
+
+    private static void pokeOfNoByte() {
+        Check.sentence("Promise 11", "IllegalArgumentException when b is not 0 .. 255");
+        CountedMeter m = newMeter();
+        m.frame(147);
+        for (int b : NO_BYTES) {
+            Check.refused("poke(0, " + b + ")", IllegalArgumentException.class, () -> poke(m, 0, b));
+            Check.refused("poke(6, " + b + ")", IllegalArgumentException.class, () -> poke(m, 6, b));
+        }
+        Check.due("the frame is as it was", m.deliver(false), 7);
+        m.put(1);
+        m.poke(0, 0);
+        m.poke(0, 255);
+    }
+
+    // ---- promise 12
+
+    private static void frameOfThePayload() {
+        Check.sentence("Promise 12", "The line becomes the frame with this control that has the line as payload");
+        CountedMeter m = newMeter();
+        m.put(1);
+        Check.due("frame of one byte", m.frame(16), 10);
+        Check.due("frame of a frame", m.frame(0), 19);
+        for (int size = 1; size <= 60; size++) {
+            Client c = Client.connected(1);
+            fill(c.meter, size);
+            Check.due("frame of " + size, c.meter.frame(16), size + 9);
+            Check.due("the reply to it", c.deliver(), Bytes.frame(48, 216, 2));
+        }
+        Client c = Client.manager(1);
+        c.put(193, 1, 2, 5, 1, 2, 3, 4);
+        c.meter.frame(16 + 2 + 32);
+        c.meter.deliver(false);
+        Check.due("the payload has the line's order", c.meter.register(1), 0x01020304);
+    }
+
+    private static void frameOfAnEmptyLine() {
+        Check.sentence("Promise 12", "(none if it is empty)");
+        CountedMeter m = newMeter();
+        Check.due("frame(147) of an empty line", m.frame(147), 7);
+        Check.due("it has no payload", m.deliver(false), 7);
+        m.put(0);
+        Check.due("frame(147) of one byte", m.frame(147), 10);
+        Check.due("it has a payload", m.deliver(false), 0);
+        m.put(0);
         m.clear();
-        Check.due("clear() leaves the reply", m.reply(3), 115);
-        Check.refused("nothing is there to ask", IllegalStateException.class, m::ask);
+        Check.due("frame(83) of a cleared line", m.frame(83), 7);
+        Check.due("it has none", m.deliver(false), 7);
+    }
+
+    private static void frameOfNoControl() {
+        Check.sentence("Promise 12", "IllegalArgumentException when control is not 0 .. 255");
+        CountedMeter m = newMeter();
+        for (int control : NO_BYTES) {
+            Check.refused("frame(" + control + ")", IllegalArgumentException.class, () -> m.frame(control));
+        }
+        Check.due("frame(0)", m.frame(0), 7);
+        m.clear();
+        Check.due("frame(255)", m.frame(255), 7);
+    }
+
+    private static void frameOfMoreThan60() {
+        Check.sentence("Promise 12", "IllegalStateException when the line has more than 60");
+        for (int size : new int[] {59, 60, 61, 62, 71, 72, 79, 80}) {
+            CountedMeter m = newMeter();
+            fill(m, size);
+            if (size <= 60) {
+                Check.due("frame of " + size, m.frame(255), size + 9);
+            } else {
+                Check.refused("frame of " + size, IllegalStateException.class, () -> m.frame(255));
+                Check.refused("poke behind the line then", IndexOutOfBoundsException.class, () -> poke(m, size, 0));
+                m.poke(size - 1, 0);
+            }
+        }
+    }
+
+    // ---- promise 13
+
+    private static void askByTheNumbers() {
+        Check.sentence("Promise 13", "As frame() with the control of an information frame of S and R");
+        Client c = Client.connected(1);
+        for (int i = 0; i < 18; i++) {
+            int step = i % 8;
+            c.put(98);
+            Check.due("ask() of one byte", c.meter.ask(), 10);
+            int control = 16 + 34 * step;
+            int[] frame = Bytes.frame(control, 98);
+            // A byte that was as it should be makes no difference.
+            c.meter.poke(3, control);
+            c.meter.poke(7, frame[7]);
+            c.meter.poke(8, frame[8]);
+            Check.due("deliver of S and R " + step, c.meter.deliver(false), 10);
+            Check.due("reply to S and R " + step, c.meter.reply(3), 16 + 2 * step + 32 * ((step + 1) % 8));
+        }
+    }
+
+    private static void askOfAnEmptyLine() {
+        Check.sentence("Promise 13", "IllegalStateException when the line is empty");
+        CountedMeter m = newMeter();
+        Check.refused("ask() of an empty line", IllegalStateException.class, m::ask);
+        Check.due("the line is empty still", m.put(7), 1);
+        Check.due("ask() of one byte", m.ask(), 10);
+        m.deliver(false);
+        Check.refused("ask() of a delivered line", IllegalStateException.class, m::ask);
+        m.put(7);
+        m.clear();
+        Check.refused("ask() of a cleared line", IllegalStateException.class, m::ask);
+    }
+
+    private static void askOfMoreThan60() {
+        Check.sentence("Promise 13", "or has more than 60");
+        for (int size : new int[] {1, 59, 60, 61, 62, 71, 72, 79, 80}) {
+            CountedMeter m = newMeter();
+            fill(m, size);
+            if (size <= 60) {
+                Check.due("ask() of " + size, m.ask(), size + 9);
+            } else {
+                Check.refused("ask() of " + size, IllegalStateException.class, m::ask);
+                Check.refused("poke behind the line then", IndexOutOfBoundsException.class, () -> poke(m, size, 0));
+                m.poke(size - 1, 0);
+            }
+        }
+    }
+
+    // ---- promise 14
+
+    private static void clearing() {
+        Check.sentence("Promise 14", "The line is empty");
+        for (int size : new int[] {0, 1, 60, 61, 80}) {
+            CountedMeter m = newMeter();
+            fill(m, size);
+            m.clear();
+            Check.refused("poke of a line cleared of " + size, IndexOutOfBoundsException.class, () -> poke(m, 0, 0));
+            Check.refused("ask of a line cleared of " + size, IllegalStateException.class, m::ask);
+            Check.due("deliver of a line cleared of " + size, m.deliver(false), 0);
+            Check.due("put behind it", m.put(1), 1);
+        }
+        Client c = Client.manager(1);
+        int link = c.meter.link();
+        c.put(98);
+        c.meter.frame(147);
+        c.meter.clear();
+        Check.due("clear() leaves the reply", c.meter.reply(6), 97);
+        Check.due("clear() leaves the meter", c.meter.link(), link);
+        Check.due("clear() leaves the asker's numbers", c.controlForAsking(98), 16 + 2 + 64);
     }
 }

@@ -1,313 +1,605 @@
-import java.util.ArrayList;
 import java.util.Arrays;
-import java.util.List;
 
-/** Promise 15 once more: the objects, their values, the results, and long answers. */
+/** Promise 15, the objects, their attributes and methods, and all results: a method for each sentence. */
 public final class ObjectsTest {
-    public static void main(String[] args) {
-        gettingAttributes();
-        gettingWhatIsNot();
-        gettingEntries();
-        gettingSomeEntries();
-        settingNumbers();
-        settingWrongNumbers();
-        settingColumns();
-        settingWrongColumns();
-        settingEmptiesTheProfile();
-        settingWithoutLeave();
-        acting();
-        actingWithoutLeave();
-        roundingTheTime();
-        blocks();
-        blocksOfFortyBytes();
-        blocksOutOfOrder();
-        aLongValueStaysAsItWas();
-        aLongValueEnds();
-        Check.end();
-    }
+    private static final int MAX = Integer.MAX_VALUE;
+    private static final int MIN = Integer.MIN_VALUE;
 
-    private static void gettingAttributes() {
-        Client c = Client.manager(7);
-        c.set(0, 2, 6, 0x71020384);
-        c.meter.count(1, 0x01FF00FE);
-        c.meter.count(2, -2);
-        c.set(4, 4, 6, 0x7F000001);
-        for (int o = 0; o <= 4; o++) {
-            Check.due("name of " + o, c.get(o, 1), 196, 1, 0, 9, 2, 1, o);
-        }
-        Check.due("the time", c.get(0, 2), 196, 1, 0, 6, 0x71, 2, 3, 0x84);
-        Check.due("register 1", c.get(1, 2), 196, 1, 0, 5, 1, 255, 0, 254);
-        Check.due("register 2", c.get(2, 2), 196, 1, 0, 5, 255, 255, 255, 254);
-        Check.due("register 3", c.get(3, 2), 196, 1, 0, 5, 0, 0, 0, 0);
-        Check.due("unit of 1", c.get(1, 3), 196, 1, 0, 2, 2, 15, 255, 22, 28);
-        Check.due("unit of 2", c.get(2, 3), 196, 1, 0, 2, 2, 15, 0, 22, 29);
-        Check.due("unit of 3", c.get(3, 3), 196, 1, 0, 2, 2, 15, 1, 22, 30);
-        Check.due("no entries", c.get(4, 2), 196, 1, 0, 1, 0);
-        Check.due("columns", c.get(4, 3), 196, 1, 0, 1, 1, 17, 1);
-        Check.due("period", c.get(4, 4), 196, 1, 0, 6, 0x7F, 0, 0, 1);
-        Check.due("number of entries", c.get(4, 7), 196, 1, 0, 6, 0, 0, 0, 0);
-        Check.due("capacity", c.get(4, 8), 196, 1, 0, 6, 0, 0, 0, 7);
-        c.act(4, 2, 0);
-        c.act(4, 2, 0);
-        Check.due("number of two entries", c.get(4, 7), 196, 1, 0, 6, 0, 0, 0, 2);
+    public static void main(String[] args) {
+        names();
+        theTime();
+        valuesOfRegisters();
+        unitsOfRegisters();
+        theEntries();
+        theColumns();
+        thePeriod();
+        entriesInUseAndCapacity();
+        entriesFromTo();
+        boundsWithoutASign();
+        gettingNoSuchObject();
+        gettingNoSuchAttribute();
+        gettingWithBounds();
+        settingNoSuchObject();
+        settingNoSuchAttribute();
+        settingWithoutLeave();
+        settingWhatCanNotBeSet();
+        settingTimeAndPeriod();
+        settingACapacity();
+        settingColumns();
+        settingWrongTags();
+        settingWrongLengths();
+        settingWrongColumns();
+        wrongValuesChangeNothing();
+        itIsSet();
+        entriesAreGoneThen();
+        entriesStay();
+        actingOnNoSuchObject();
+        actingByNoSuchMethod();
+        actingWithoutLeave();
+        actingOnTheClockWith0();
+        actingOnRegisters();
+        actingOnTheProfile();
+        actingOnTheClock();
+        Check.end();
     }
 
     private static boolean isAttribute(int o, int a) {
         return a == 1 || a == 2 || a == 3 && o > 0 || o == 4 && (a == 4 || a == 7 || a == 8);
     }
 
-    private static void gettingWhatIsNot() {
-        Client c = Client.reader(1);
-        for (int o = 0; o < 256; o += o < 8 ? 1 : 31) {
-            for (int a = 0; a < 256; a += a < 12 ? 1 : 61) {
-                int result = o > 4 ? 4 : isAttribute(o, a) ? 0 : 9;
-                int[] plain = c.get(o, a);
-                Check.due("plain get of " + o + ", " + a, plain[2], result == 0 ? 0 : 1);
-                if (result != 0) {
-                    Check.due("answer to get of " + o + ", " + a, plain, 196, 1, 1, result);
-                }
-                int[] bounded = c.ask(192, 1, o, a, 1, 0, 0, 0, 0, 0, 0, 0, 9);
-                if (o == 4 && a == 2) {
-                    Check.due("bounded get of entries", bounded, 196, 1, 0, 1, 0);
-                } else {
-                    Check.due("bounded get of " + o + ", " + a, bounded, 196, 1, 1, result == 0 ? 13 : result);
-                }
-            }
+    private static boolean isSettable(int o, int a) {
+        return a == 2 && o < 4 || o == 4 && (a == 3 || a == 4 || a == 8);
+    }
+
+    private static boolean isMethod(int o, int m) {
+        return o == 0 ? m == 3 : o == 4 ? m == 1 || m == 2 : m == 1;
+    }
+
+    private static int[] failed(int result) {
+        return new int[] {196, 1, 1, result};
+    }
+
+    // ---- attributes
+
+    private static void names() {
+        Check.sentence("Terms", "ATTRIBUTES of all of them: 1: 9, 2, 1, o");
+        Client c = Client.reader(7);
+        for (int o = 0; o <= 4; o++) {
+            Check.due("attribute 1 of " + o, c.get(o, 1), Bytes.got(9, 2, 1, o));
         }
     }
 
-    private static void gettingEntries() {
-        Client c = Client.manager(4);
-        c.set(4, 3, new int[] {1, 2, 17, 2, 17, 1});
+    private static void theTime() {
+        Check.sentence("Terms", "Of the clock: 2: 6 and four bytes, the time");
+        Client c = Client.manager(7);
+        for (int time : new int[] {0, 1, 255, 256, 65536, 0x71020384, MAX}) {
+            c.set(0, 2, 6, time);
+            Check.due("attribute 2 of the clock", c.get(0, 2), Bytes.got(Bytes.tagged(6, time)));
+        }
+    }
+
+    private static void valuesOfRegisters() {
+        Check.sentence("Terms", "Of a register o: 2: 5 and four bytes, its value");
+        Client c = Client.reader(7);
+        int[] values = {0, 0x01FF00FE, -1, MAX, MIN};
+        int before = 0;
+        for (int v : values) {
+            for (int o = 1; o <= 3; o++) {
+                c.meter.count(o, v - before);
+                Check.due("attribute 2 of " + o, c.get(o, 2), Bytes.got(Bytes.tagged(5, v)));
+            }
+            before = v;
+        }
+        c.meter.count(2, 7);
+        Check.due("attribute 2 of 1", c.get(1, 2), Bytes.got(Bytes.tagged(5, MIN)));
+        Check.due("attribute 2 of 2", c.get(2, 2), Bytes.got(Bytes.tagged(5, MIN + 7)));
+        Check.due("attribute 2 of 3", c.get(3, 2), Bytes.got(Bytes.tagged(5, MIN)));
+    }
+
+    private static void unitsOfRegisters() {
+        Check.sentence("Terms", "3: 2, 2, 15, (o - 2) & 255, 22, 27 + o");
+        Client c = Client.reader(7);
+        Check.due("attribute 3 of 1", c.get(1, 3), Bytes.got(2, 2, 15, 255, 22, 28));
+        Check.due("attribute 3 of 2", c.get(2, 3), Bytes.got(2, 2, 15, 0, 22, 29));
+        Check.due("attribute 3 of 3", c.get(3, 3), Bytes.got(2, 2, 15, 1, 22, 30));
+    }
+
+    private static void theEntries() {
+        Check.sentence("Terms", "2: 1, the number of entries, and for each of them, in order, 2, the number of columns plus 1");
+        Client c = Client.manager(2);
+        Check.due("no entries", c.get(4, 2), Bytes.got(1, 0));
+        c.set(4, 3, Bytes.columns(2, 1));
         c.meter.run(258);
         c.meter.count(1, 3);
         c.meter.count(2, -1);
-        c.act(4, 2, 0);
-        Check.due("an entry", c.get(4, 2),
-            196, 1, 0, 1, 1, 2, 3, 6, 0, 0, 1, 2, 5, 255, 255, 255, 255, 5, 0, 0, 0, 3);
+        c.capture();
+        int[] first = {2, 3, 6, 0, 0, 1, 2, 5, 255, 255, 255, 255, 5, 0, 0, 0, 3};
+        Check.due("an entry", c.get(4, 2), Bytes.got(Bytes.joined(new int[] {1, 1}, first)));
         c.meter.run(1);
         c.meter.count(2, 3);
-        c.act(4, 2, 0);
-        Check.due("two entries", c.get(4, 2),
-            196, 1, 0, 1, 2, 2, 3, 6, 0, 0, 1, 2, 5, 255, 255, 255, 255, 5, 0, 0, 0, 3,
-            2, 3, 6, 0, 0, 1, 3, 5, 0, 0, 0, 2, 5, 0, 0, 0, 3);
+        c.capture();
+        int[] second = {2, 3, 6, 0, 0, 1, 3, 5, 0, 0, 0, 2, 5, 0, 0, 0, 3};
+        Check.due("two entries", c.get(4, 2), Bytes.got(Bytes.joined(new int[] {1, 2}, first, second)));
+        c.capture();
+        Check.due("the first one gone", c.get(4, 2), Bytes.got(Bytes.joined(new int[] {1, 2}, second, second)));
+        c.set(4, 3, Bytes.columns(3));
+        c.capture();
+        Check.due("an entry of one column", c.get(4, 2), Bytes.got(1, 1, 2, 2, 6, 0, 0, 1, 3, 5, 0, 0, 0, 0));
     }
 
-    private static void gettingSomeEntries() {
+    private static void theColumns() {
+        Check.sentence("Terms", "3: 1, the number of columns, and 17, o for each");
+        Client c = Client.manager(2);
+        Check.due("columns at first", c.get(4, 3), Bytes.got(1, 1, 17, 1));
+        c.set(4, 3, Bytes.columns(3, 1));
+        Check.due("two columns", c.get(4, 3), Bytes.got(1, 2, 17, 3, 17, 1));
+        c.set(4, 3, Bytes.columns(2, 3, 1));
+        Check.due("three columns", c.get(4, 3), Bytes.got(1, 3, 17, 2, 17, 3, 17, 1));
+    }
+
+    private static void thePeriod() {
+        Check.sentence("Terms", "4: 6 and four bytes, the period");
+        Client c = Client.manager(2);
+        for (int period : new int[] {0, 1, 0x7F020384, MAX}) {
+            c.set(4, 4, 6, period);
+            Check.due("attribute 4 of the profile", c.get(4, 4), Bytes.got(Bytes.tagged(6, period)));
+        }
+    }
+
+    private static void entriesInUseAndCapacity() {
+        Check.sentence("Terms", "7 and 8: 6 and four bytes, the number of entries, and the capacity");
         Client c = Client.manager(3);
+        for (int entries = 0; entries <= 5; entries++) {
+            Check.due("attribute 7", c.get(4, 7), Bytes.got(6, 0, 0, 0, Math.min(3, entries)));
+            Check.due("attribute 8", c.get(4, 8), Bytes.got(6, 0, 0, 0, 3));
+            c.capture();
+        }
+    }
+
+    // ---- some entries
+
+    /** The answer with the entries of these times, that have one column that is 0. */
+    private static int[] entriesAt(int... times) {
+        int[] value = {1, times.length};
+        for (int time : times) {
+            value = Bytes.joined(value, new int[] {2, 2}, Bytes.tagged(6, time), Bytes.tagged(5, 0));
+        }
+        return Bytes.got(value);
+    }
+
+    private static void entriesFromTo() {
+        Check.sentence("Terms", "of the entries those with times from f to t alone");
+        Client c = Client.manager(3);
+        Check.due("of no entries", c.getSome(4, 2, 0, 99), entriesAt());
         c.set(4, 4, 6, 10);
         c.meter.run(30);
-        int[][] asked = {{0, 30, 1, 2, 3}, {10, 30, 1, 2, 3}, {11, 29, 2}, {11, 30, 2, 3}, {10, 29, 1, 2},
-            {20, 20, 2}, {21, 29}, {30, 10}, {0, -1, 1, 2, 3}, {-1, -1}, {-1, 30}, {20, Integer.MIN_VALUE, 2, 3},
-            {Integer.MIN_VALUE, -1}, {31, Integer.MAX_VALUE}, {0, 9}};
-        for (int[] row : asked) {
-            List<Integer> due = new ArrayList<>(List.of(196, 1, 0, 1, row.length - 2));
-            for (int i = 2; i < row.length; i++) {
-                due.addAll(List.of(2, 2, 6, 0, 0, 0, 10 * row[i], 5, 0, 0, 0, 0));
-            }
-            c.put(192, 1, 4, 2, 1);
-            c.meter.putInt(row[0]);
-            c.meter.putInt(row[1]);
-            c.meter.ask();
-            Check.due("entries from " + row[0] + " to " + row[1], Client.payloadOf(c.deliver()),
-                due.stream().mapToInt(Integer::intValue).toArray());
-        }
-        someEntriesAtTheEdgesOfTime();
+        Check.due("0 to 99", c.getSome(4, 2, 0, 99), entriesAt(10, 20, 30));
+        Check.due("10 to 30", c.getSome(4, 2, 10, 30), entriesAt(10, 20, 30));
+        Check.due("11 to 30", c.getSome(4, 2, 11, 30), entriesAt(20, 30));
+        Check.due("10 to 29", c.getSome(4, 2, 10, 29), entriesAt(10, 20));
+        Check.due("9 to 11", c.getSome(4, 2, 9, 11), entriesAt(10));
+        Check.due("20 to 20", c.getSome(4, 2, 20, 20), entriesAt(20));
+        Check.due("21 to 29", c.getSome(4, 2, 21, 29), entriesAt());
+        Check.due("30 to 10", c.getSome(4, 2, 30, 10), entriesAt());
+        Check.due("21 to 20", c.getSome(4, 2, 21, 20), entriesAt());
+        Check.due("0 to 9", c.getSome(4, 2, 0, 9), entriesAt());
+        Check.due("31 to 99", c.getSome(4, 2, 31, 99), entriesAt());
+        Check.due("all of them stay", c.get(4, 2), entriesAt(10, 20, 30));
     }
 
-    private static void someEntriesAtTheEdgesOfTime() {
+    private static void boundsWithoutASign() {
+        Check.sentence("Terms", "(as numbers without a sign)");
         Client c = Client.manager(3);
-        c.act(4, 2, 0);
-        c.set(0, 2, 6, Integer.MAX_VALUE);
-        c.act(4, 2, 0);
-        Check.due("all of them", c.get(4, 2),
-            196, 1, 0, 1, 2, 2, 2, 6, 0, 0, 0, 0, 5, 0, 0, 0, 0, 2, 2, 6, 127, 255, 255, 255, 5, 0, 0, 0, 0);
-        Check.due("from 0 to 0", c.ask(192, 1, 4, 2, 1, 0, 0, 0, 0, 0, 0, 0, 0),
-            196, 1, 0, 1, 1, 2, 2, 6, 0, 0, 0, 0, 5, 0, 0, 0, 0);
-        Check.due("from 1 to the greatest", c.ask(192, 1, 4, 2, 1, 0, 0, 0, 1, 255, 255, 255, 255),
-            196, 1, 0, 1, 1, 2, 2, 6, 127, 255, 255, 255, 5, 0, 0, 0, 0);
-        Check.due("from 2^31", c.ask(192, 1, 4, 2, 1, 128, 0, 0, 0, 255, 255, 255, 255), 196, 1, 0, 1, 0);
+        c.capture();
+        c.set(0, 2, 6, MAX);
+        c.capture();
+        c.set(0, 2, 6, 5);
+        c.capture();
+        Check.due("all of them", c.get(4, 2), entriesAt(0, MAX, 5));
+        Check.due("0 to 2^32 - 1", c.getSome(4, 2, 0, -1), entriesAt(0, MAX, 5));
+        Check.due("0 to 2^31", c.getSome(4, 2, 0, MIN), entriesAt(0, MAX, 5));
+        Check.due("0 to 2^31 - 1", c.getSome(4, 2, 0, MAX), entriesAt(0, MAX, 5));
+        Check.due("0 to 2^31 - 2", c.getSome(4, 2, 0, MAX - 1), entriesAt(0, 5));
+        Check.due("2^31 - 1 to 2^31 - 1", c.getSome(4, 2, MAX, MAX), entriesAt(MAX));
+        Check.due("2^31 - 1 to 2^31", c.getSome(4, 2, MAX, MIN), entriesAt(MAX));
+        Check.due("1 to 2^32 - 1", c.getSome(4, 2, 1, -1), entriesAt(MAX, 5));
+        Check.due("2^31 to 2^32 - 1", c.getSome(4, 2, MIN, -1), entriesAt());
+        Check.due("2^31 to 2^31 - 1", c.getSome(4, 2, MIN, MAX), entriesAt());
+        Check.due("2^32 - 1 to 2^32 - 1", c.getSome(4, 2, -1, -1), entriesAt());
+        Check.due("2^32 - 1 to 5", c.getSome(4, 2, -1, 5), entriesAt());
+        Check.due("0 to 0", c.getSome(4, 2, 0, 0), entriesAt(0));
     }
 
-    private static void settingNumbers() {
-        Client c = Client.manager(2);
-        for (int v : new int[] {0, 1, 0x01020304, Integer.MAX_VALUE}) {
-            Check.due("set time " + v, c.set(0, 2, 6, v), 0);
-            Check.due("time()", c.meter.time(), v);
-            Check.due("set period " + v, c.set(4, 4, 6, v), 0);
-            Check.due("period", c.get(4, 4), 196, 1, 0, 6, v >>> 24, v >>> 16 & 255, v >>> 8 & 255, v & 255);
-        }
-        for (int v : new int[] {0, 1, -1, Integer.MIN_VALUE, Integer.MAX_VALUE}) {
-            for (int o = 1; o <= 3; o++) {
-                Check.due("set register " + v, c.set(o, 2, 5, v + o), 0);
-                Check.due("register(" + o + ")", c.meter.register(o), v + o);
+    // ---- results of getting
+
+    private static void gettingNoSuchObject() {
+        Check.sentence("Terms", "RESULTS of getting: 4: there is no such object");
+        for (int o : new int[] {5, 6, 127, 128, 255}) {
+            Client c = Client.reader(1);
+            for (int a : new int[] {0, 1, 2, 9}) {
+                Check.due("get of " + o + ", " + a, c.get(o, a), failed(4));
+                Check.due("get of some of " + o + ", " + a, c.getSome(o, a, 0, 9), failed(4));
             }
         }
-        for (int v = 1; v <= 12; v++) {
-            Check.due("set capacity " + v, c.set(4, 8, 6, v), 0);
-            Check.due("capacity", c.get(4, 8), 196, 1, 0, 6, 0, 0, 0, v);
-        }
-        Check.due("setting the time captures nothing", c.meter.entries(), 0);
+        Client c = Client.reader(1);
+        Check.due("get of 4, 1", c.get(4, 1), Bytes.got(9, 2, 1, 4));
+        Check.due("get of 0, 1", c.get(0, 1), Bytes.got(9, 2, 1, 0));
     }
 
-    private static void settingWrongNumbers() {
-        Client c = Client.manager(2);
-        c.set(0, 2, 6, 5);
-        c.act(4, 2, 0);
-        for (int[] row : new int[][] {{0, 2, 6}, {1, 2, 5}, {2, 2, 5}, {3, 2, 5}, {4, 4, 6}, {4, 8, 6}}) {
-            String what = "set " + row[0] + ", " + row[1];
-            for (int tag : new int[] {0, 1, 2, 4, 5, 6, 7, 17, 255}) {
-                if (tag != row[2]) {
-                    Check.due(what + " with tag " + tag, c.set(row[0], row[1], tag, 3), 12);
+    private static void gettingNoSuchAttribute() {
+        Check.sentence("Terms", "9: no such attribute");
+        for (int o = 0; o <= 4; o++) {
+            Client c = Client.reader(1);
+            for (int a : new int[] {0, 1, 2, 3, 4, 5, 6, 7, 8, 9, 10, 255}) {
+                if (isAttribute(o, a)) {
+                    Check.due("get of " + o + ", " + a, Arrays.copyOf(c.get(o, a), 3), 196, 1, 0);
+                } else {
+                    Check.due("get of " + o + ", " + a, c.get(o, a), failed(9));
                 }
             }
-            Check.due(what + " to no bytes", c.set(row[0], row[1], new int[0]), 12);
-            Check.due(what + " to a tag", c.set(row[0], row[1], new int[] {row[2]}), 12);
-            Check.due(what + " too short", c.set(row[0], row[1], new int[] {row[2], 0, 0, 3}), 12);
-            Check.due(what + " too long", c.set(row[0], row[1], new int[] {row[2], 0, 0, 0, 3, 0}), 12);
         }
-        for (int v : new int[] {-1, Integer.MIN_VALUE}) {
-            Check.due("set time " + v, c.set(0, 2, 6, v), 12);
-            Check.due("set period " + v, c.set(4, 4, 6, v), 12);
-            Check.due("set capacity " + v, c.set(4, 8, 6, v), 12);
-        }
-        for (int v : new int[] {0, 13, 256, 0x01000001, Integer.MAX_VALUE}) {
-            Check.due("set capacity " + v, c.set(4, 8, 6, v), 12);
-        }
-        Check.due("time()", c.meter.time(), 5);
-        Check.due("entries()", c.meter.entries(), 1);
-        Check.due("capacity", c.get(4, 8), 196, 1, 0, 6, 0, 0, 0, 2);
-        Check.due("period", c.get(4, 4), 196, 1, 0, 6, 0, 0, 0, 0);
-        Check.due("register(1)", c.meter.register(1), 0);
     }
 
-    private static void settingColumns() {
-        int[][] orders = {{1}, {2}, {3}, {1, 2}, {2, 1}, {1, 3}, {3, 1}, {2, 3}, {3, 2}, {1, 2, 3}, {1, 3, 2},
-            {2, 1, 3}, {2, 3, 1}, {3, 1, 2}, {3, 2, 1}};
-        Client c = Client.manager(2);
-        for (int o = 1; o <= 3; o++) {
-            c.meter.count(o, 100 * o);
-        }
-        for (int[] order : orders) {
-            int[] value = columns(order);
-            Check.due("set columns " + Arrays.toString(order), c.set(4, 3, value), 0);
-            int[] answer = c.get(4, 3);
-            Check.due("columns", Arrays.copyOfRange(answer, 3, answer.length), value);
-            c.act(4, 2, 0);
-            for (int k = 0; k < order.length; k++) {
-                Check.due("column " + k, c.meter.entry(0, k + 1), 100 * order[k]);
+    private static void gettingWithBounds() {
+        Check.sentence("Terms", "13: f and t are given, but it is not attribute 2 of the profile");
+        for (int o = 0; o <= 4; o++) {
+            Client c = Client.reader(1);
+            for (int a = 0; a <= 9; a++) {
+                if (o == 4 && a == 2) {
+                    Check.due("get of some entries", c.getSome(o, a, 0, 9), Bytes.got(1, 0));
+                } else {
+                    Check.due("get of some of " + o + ", " + a, c.getSome(o, a, 0, 9), failed(isAttribute(o, a) ? 13 : 9));
+                }
             }
         }
     }
 
-    private static int[] columns(int... registers) {
-        int[] value = new int[2 + 2 * registers.length];
-        value[0] = 1;
-        value[1] = registers.length;
-        for (int k = 0; k < registers.length; k++) {
-            value[2 + 2 * k] = 17;
-            value[3 + 2 * k] = registers[k];
+    // ---- results of setting
+
+    private static void settingNoSuchObject() {
+        Check.sentence("Terms", "Of setting, the first that holds: 4");
+        for (Client c : new Client[] {Client.reader(1), Client.manager(1)}) {
+            for (int o : new int[] {5, 6, 255}) {
+                Check.due("set of " + o + ", 2", c.set(o, 2, 5, 1), 4);
+                Check.due("set of " + o + ", 9", c.set(o, 9, new int[0]), 4);
+            }
         }
-        return value;
+        Check.due("set of 4, 4", Client.manager(1).set(4, 4, 6, 1), 0);
+        Check.due("set of 0, 2", Client.manager(1).set(0, 2, 6, 1), 0);
     }
 
-    private static void settingWrongColumns() {
-        int[][] wrong = {{}, {1}, {1, 0}, {1, 1}, {1, 1, 17}, {2, 1, 17, 2}, {1, 1, 16, 2}, {1, 1, 17, 2, 0},
-            {1, 2, 17, 2}, {1, 1, 17, 2, 17, 3}, {1, 2, 17, 2, 18, 3}, {1, 255}, {1, 3, 17, 1, 17, 2, 17},
-            columns(0), columns(4), columns(255), columns(1, 1), columns(2, 2), columns(3, 3), columns(1, 4),
-            columns(1, 0), columns(1, 2, 1), columns(2, 1, 1), columns(2, 2, 1), columns(1, 2, 4),
-            columns(1, 2, 3, 1), columns(1, 2, 3, 4), columns(1, 33), columns(33), columns()};
-        Client c = Client.manager(2);
-        c.set(4, 3, columns(3, 2));
-        c.act(4, 2, 0);
-        for (int[] value : wrong) {
-            Check.due("set columns to " + Arrays.toString(value), c.set(4, 3, value), 12);
+    private static void settingNoSuchAttribute() {
+        Check.sentence("Terms", "the first that holds: 4; 9");
+        for (int o = 0; o <= 4; o++) {
+            for (Client c : new Client[] {Client.reader(1), Client.manager(1)}) {
+                for (int a : new int[] {0, 1, 2, 3, 4, 5, 6, 7, 8, 9, 255}) {
+                    int result = c.set(o, a, new int[] {0});
+                    Check.due("set of " + o + ", " + a, result == 9 ? 1 : 0, isAttribute(o, a) ? 0 : 1);
+                }
+            }
         }
-        Check.due("the columns are as they were", c.get(4, 3), 196, 1, 0, 1, 2, 17, 3, 17, 2);
-        Check.due("the entries too", c.meter.entries(), 1);
-    }
-
-    private static void settingEmptiesTheProfile() {
-        Client c = Client.manager(3);
-        c.meter.run(1);
-        for (int i = 0; i < 5; i++) {
-            c.act(4, 2, 0);
-        }
-        c.set(4, 4, 6, 9);
-        c.set(0, 2, 6, 9);
-        c.set(1, 2, 5, 9);
-        Check.due("period, time and registers leave the entries", c.meter.entries(), 3);
-        c.set(4, 8, 6, 3);
-        Check.due("the same capacity empties", c.meter.entries(), 0);
-        c.act(4, 2, 0);
-        c.set(4, 3, columns(1));
-        Check.due("the same columns empty", c.meter.entries(), 0);
-        c.set(4, 8, 6, 5);
-        for (int i = 0; i < 7; i++) {
-            c.meter.run(1);
-            c.act(4, 2, 0);
-        }
-        Check.due("entries with a greater capacity", c.meter.entries(), 5);
-        Check.due("the first of them", c.meter.entry(0, 0), 12);
-        Check.due("the last of them", c.meter.entry(4, 0), 16);
     }
 
     private static void settingWithoutLeave() {
-        Client reader = Client.reader(2);
-        Client manager = Client.manager(2);
-        for (int o = 0; o <= 6; o++) {
-            for (int a = 0; a <= 9; a++) {
-                boolean settable = a == 2 && o < 4 || o == 4 && (a == 3 || a == 4 || a == 8);
-                int missing = o > 4 ? 4 : isAttribute(o, a) ? 0 : 9;
-                Check.due("reader sets " + o + ", " + a, reader.set(o, a, new int[] {0}), missing == 0 ? 3 : missing);
-                Check.due("manager sets " + o + ", " + a, manager.set(o, a, new int[] {0}),
-                    missing != 0 ? missing : settable ? 12 : 3);
+        Check.sentence("Terms", "3: the association is not 2");
+        Client c = Client.reader(2);
+        for (int o = 0; o <= 4; o++) {
+            for (int a = 1; a <= 8; a++) {
+                if (isAttribute(o, a)) {
+                    Check.due("a reader sets " + o + ", " + a, c.set(o, a, new int[] {0}), 3);
+                }
             }
         }
-        Check.due("reader sets the time", reader.set(0, 2, 6, 77), 3);
-        Check.due("time()", reader.meter.time(), 0);
-        Check.due("manager sets entries", manager.set(4, 2, new int[] {1, 0}), 3);
+        Check.due("a reader sets the time", c.set(0, 2, 6, 7), 3);
+        Check.due("a reader sets a register", c.set(1, 2, 5, 7), 3);
+        Check.due("a reader sets the period", c.set(4, 4, 6, 7), 3);
+        Check.due("a reader sets the capacity", c.set(4, 8, 6, 7), 3);
+        Check.due("a reader sets columns", c.set(4, 3, Bytes.columns(2)), 3);
+        Check.due("time()", c.meter.time(), 0);
+        Check.due("register(1)", c.meter.register(1), 0);
+        Check.due("period", c.get(4, 4), Bytes.got(6, 0, 0, 0, 0));
+        Check.due("capacity", c.get(4, 8), Bytes.got(6, 0, 0, 0, 2));
+        Check.due("columns", c.get(4, 3), Bytes.got(1, 1, 17, 1));
     }
 
-    private static void acting() {
+    private static void settingWhatCanNotBeSet() {
+        Check.sentence("Terms", "or it is none of attribute 2 of clock or registers, 3, 4 or 8 of the profile");
+        for (int o = 0; o <= 4; o++) {
+            Client c = Client.manager(2);
+            for (int a = 1; a <= 8; a++) {
+                if (isAttribute(o, a)) {
+                    Check.due("a manager sets " + o + ", " + a, c.set(o, a, new int[] {0}), isSettable(o, a) ? 12 : 3);
+                }
+            }
+        }
         Client c = Client.manager(2);
-        for (int o = 1; o <= 3; o++) {
-            c.meter.count(o, 10 * o);
+        Check.due("set a name", c.set(0, 1, new int[] {9, 2, 1, 0}), 3);
+        Check.due("set a unit", c.set(1, 3, new int[] {2, 2, 15, 255, 22, 28}), 3);
+        Check.due("set the entries", c.set(4, 2, new int[] {1, 0}), 3);
+        Check.due("set the number of entries", c.set(4, 7, 6, 0), 3);
+    }
+
+    private static void settingTimeAndPeriod() {
+        Check.sentence("Terms", "a time or period of at most 2^31 - 1");
+        Client c = Client.manager(2);
+        for (int v : new int[] {MIN, MIN + 1, -2, -1}) {
+            Check.due("set the time to " + v, c.set(0, 2, 6, v), 12);
+            Check.due("set the period to " + v, c.set(4, 4, 6, v), 12);
         }
-        for (int o = 1; o <= 3; o++) {
-            Check.due("reset " + o, c.act(o, 1, o * 80), 0);
-            Check.due("register(" + o + ")", c.meter.register(o), 0);
-            Check.due("the next one", c.meter.register(o % 3 + 1), o == 3 ? 0 : 10 * o + 10);
+        Check.due("time()", c.meter.time(), 0);
+        Check.due("period", c.get(4, 4), Bytes.got(6, 0, 0, 0, 0));
+        for (int v : new int[] {MAX, MAX - 1, 0, 1, 0x01020304}) {
+            Check.due("set the time to " + v, c.set(0, 2, 6, v), 0);
+            Check.due("time()", c.meter.time(), v);
+            Check.due("set the period to " + v, c.set(4, 4, 6, v), 0);
+            Check.due("period", c.get(4, 4), Bytes.got(Bytes.tagged(6, v)));
         }
-        c.meter.run(7);
-        Check.due("capture", c.act(4, 2, 255), 0);
+    }
+
+    private static void settingACapacity() {
+        Check.sentence("Terms", "a capacity of 1 .. 12");
+        Client c = Client.manager(2);
+        for (int v : new int[] {0, 13, -1, 256, 257, 0x00010001, 0x01000001, 0x0C000000, MAX, MIN, MIN + 1}) {
+            Check.due("set the capacity to " + v, c.set(4, 8, 6, v), 12);
+        }
+        Check.due("capacity", c.get(4, 8), Bytes.got(6, 0, 0, 0, 2));
+        for (int v = 1; v <= 12; v++) {
+            Check.due("set the capacity to " + v, c.set(4, 8, 6, v), 0);
+            Check.due("capacity", c.get(4, 8), Bytes.got(6, 0, 0, 0, v));
+        }
+        capacityHolds();
+    }
+
+    private static void capacityHolds() {
+        for (int[] pair : new int[][] {{12, 1}, {1, 12}, {5, 6}, {6, 5}}) {
+            Client c = Client.manager(pair[0]);
+            c.set(4, 4, 6, 1);
+            c.meter.run(20);
+            Check.due("entries()", c.meter.entries(), pair[0]);
+            c.set(4, 8, 6, pair[1]);
+            c.meter.run(pair[1]);
+            Check.due("entries() when full", c.meter.entries(), pair[1]);
+            Check.due("the first of them", c.meter.entry(0, 0), 21);
+            c.meter.run(1);
+            Check.due("entries() of one more", c.meter.entries(), pair[1]);
+            Check.due("the first of them then", c.meter.entry(0, 0), 22);
+            Check.due("the last of them then", c.meter.entry(pair[1] - 1, 0), 21 + pair[1]);
+        }
+    }
+
+    private static void settingColumns() {
+        Check.sentence("Terms", "COLUMNS (one to three different registers in any order");
+        int[][] orders = {{1}, {2}, {3}, {1, 2}, {2, 1}, {1, 3}, {3, 1}, {2, 3}, {3, 2}, {1, 2, 3}, {1, 3, 2},
+            {2, 1, 3}, {2, 3, 1}, {3, 1, 2}, {3, 2, 1}};
+        for (int[] order : orders) {
+            Client c = Client.manager(2);
+            int[] value = Bytes.columns(order);
+            Check.due("set columns " + Arrays.toString(order), c.set(4, 3, value), 0);
+            Check.due("columns", c.get(4, 3), Bytes.got(value));
+        }
+    }
+
+    private static void settingWrongTags() {
+        Check.sentence("Terms", "12: the bytes are not such a value (as above");
+        int[][] targets = {{0, 2, 6}, {1, 2, 5}, {2, 2, 5}, {3, 2, 5}, {4, 4, 6}, {4, 8, 6}};
+        for (int[] target : targets) {
+            Client c = Client.manager(2);
+            for (int tag : new int[] {0, 1, 2, 4, 5, 6, 7, 9, 17, 255}) {
+                Check.due("set " + target[0] + ", " + target[1] + " with tag " + tag,
+                    c.set(target[0], target[1], tag, 3), tag == target[2] ? 0 : 12);
+            }
+        }
+    }
+
+    private static void settingWrongLengths() {
+        Check.sentence("Terms", "12: the bytes are not such a value");
+        int[][] targets = {{0, 2, 6}, {1, 2, 5}, {2, 2, 5}, {3, 2, 5}, {4, 4, 6}, {4, 8, 6}};
+        for (int[] target : targets) {
+            Client c = Client.manager(2);
+            for (int size = 0; size <= 10; size++) {
+                int[] value = Arrays.copyOf(new int[] {target[2], 0, 0, 0, 3, 0, 0, 0, 0, 0}, size);
+                Check.due("set " + target[0] + ", " + target[1] + " to " + size + " bytes",
+                    c.set(target[0], target[1], value), size == 5 ? 0 : 12);
+            }
+        }
+    }
+
+    private static void settingWrongColumns() {
+        Check.sentence("Terms", "columns as said");
+        int[][] wrong = {{}, {1}, {1, 0}, {1, 1}, {1, 1, 17}, {0, 1, 17, 2}, {2, 1, 17, 2}, {1, 1, 16, 2}, {1, 1, 18, 2},
+            {1, 1, 17, 2, 0}, {1, 2, 17, 2}, {1, 0, 17, 2}, {1, 1, 17, 2, 17, 3}, {1, 2, 17, 2, 18, 3}, {1, 255},
+            {1, 2, 17, 2, 17}, {1, 3, 17, 1, 17, 2, 17}, {1, 3, 17, 1, 17, 2}, {1, 2, 17, 1, 17, 2, 17, 3},
+            {1, 2, 16, 1, 17, 2}, {1, 3, 17, 1, 17, 2, 5, 3}, {6, 0, 0, 0, 1},
+            Bytes.columns(0), Bytes.columns(4), Bytes.columns(255), Bytes.columns(33), Bytes.columns(1, 1),
+            Bytes.columns(2, 2), Bytes.columns(3, 3), Bytes.columns(1, 4), Bytes.columns(4, 1), Bytes.columns(1, 0),
+            Bytes.columns(0, 1), Bytes.columns(1, 33), Bytes.columns(1, 2, 1), Bytes.columns(2, 1, 1),
+            Bytes.columns(2, 2, 1), Bytes.columns(3, 3, 3), Bytes.columns(1, 2, 4), Bytes.columns(1, 2, 0),
+            Bytes.columns(1, 2, 3, 1), Bytes.columns(1, 2, 3, 4), Bytes.columns(1, 2, 3, 0), Bytes.columns()};
+        for (int[] value : wrong) {
+            Client c = Client.manager(2);
+            c.set(4, 3, Bytes.columns(3, 2));
+            c.capture();
+            Check.due("set columns to " + Arrays.toString(value), c.set(4, 3, value), 12);
+            Check.due("the columns are as they were", c.get(4, 3), Bytes.got(1, 2, 17, 3, 17, 2));
+            Check.due("the entries too", c.meter.entries(), 1);
+        }
+    }
+
+    private static void wrongValuesChangeNothing() {
+        Check.sentence("Terms", "0: it is set");
+        Client c = Client.manager(2);
+        c.set(0, 2, 6, 5);
+        c.meter.count(1, 9);
+        c.set(4, 4, 6, 77);
+        c.capture();
+        int[][] targets = {{0, 2, 5}, {1, 2, 6}, {4, 4, 5}, {4, 8, 5}};
+        for (int[] target : targets) {
+            Check.due("set with a wrong tag", c.set(target[0], target[1], target[2], 3), 12);
+            Check.due("set to too few bytes", c.set(target[0], target[1], new int[] {11 - target[2], 0, 0, 3}), 12);
+            Check.due("set to too many bytes", c.set(target[0], target[1], new int[] {11 - target[2], 0, 0, 0, 3, 0}), 12);
+        }
+        Check.due("time()", c.meter.time(), 5);
+        Check.due("register(1)", c.meter.register(1), 9);
         Check.due("entries()", c.meter.entries(), 1);
-        Check.due("its time", c.meter.entry(0, 0), 7);
-        Check.due("empty", c.act(4, 1, 255), 0);
-        Check.due("entries() then", c.meter.entries(), 0);
-        Check.due("empty once more", c.act(4, 1, 0), 0);
+        Check.due("period", c.get(4, 4), Bytes.got(6, 0, 0, 0, 77));
+        Check.due("capacity", c.get(4, 8), Bytes.got(6, 0, 0, 0, 2));
+    }
+
+    private static void itIsSet() {
+        Check.sentence("Terms", "0: it is set");
+        Client c = Client.manager(2);
+        for (int v : new int[] {0, 1, -1, MIN, MAX}) {
+            for (int o = 1; o <= 3; o++) {
+                Check.due("set register " + o + " to " + v, c.set(o, 2, 5, v), 0);
+                Check.due("register(" + o + ")", c.meter.register(o), v);
+            }
+            c.set(2, 2, 5, 44);
+            Check.due("register(1) stays", c.meter.register(1), v);
+            Check.due("register(3) stays", c.meter.register(3), v);
+        }
+        c.set(4, 4, 6, 10);
+        Check.due("set the time to a multiple of the period", c.set(0, 2, 6, 20), 0);
+        Check.due("captures nothing", c.meter.entries(), 0);
+    }
+
+    private static void entriesAreGoneThen() {
+        Check.sentence("Terms", "(for columns and capacity all entries are gone then)");
+        Client c = Client.manager(3);
+        for (int i = 0; i < 5; i++) {
+            c.capture();
+        }
+        c.set(4, 8, 6, 3);
+        Check.due("entries() with the same capacity", c.meter.entries(), 0);
+        c.capture();
+        c.set(4, 3, Bytes.columns(1));
+        Check.due("entries() with the same columns", c.meter.entries(), 0);
+        Check.refused("entry(0, 0)", IndexOutOfBoundsException.class, () -> c.meter.entry(0, 0));
+        c.capture();
+        c.set(4, 8, 6, 12);
+        Check.due("entries() with a greater capacity", c.meter.entries(), 0);
+        c.capture();
+        c.set(4, 3, Bytes.columns(1, 2));
+        Check.due("entries() with other columns", c.meter.entries(), 0);
+        c.meter.run(7);
+        c.capture();
+        Check.due("entries() anew", c.meter.entries(), 1);
+        Check.due("the first of them", c.meter.entry(0, 0), 7);
+    }
+
+    private static void entriesStay() {
+        Check.sentence("Terms", "for columns and capacity all entries are gone then");
+        Client c = Client.manager(3);
+        for (int i = 0; i < 2; i++) {
+            c.capture();
+        }
+        c.set(4, 4, 6, 9);
+        Check.due("entries() when the period was set", c.meter.entries(), 2);
+        c.set(0, 2, 6, 9);
+        Check.due("entries() when the time was set", c.meter.entries(), 2);
+        c.set(1, 2, 5, 9);
+        Check.due("entries() when a register was set", c.meter.entries(), 2);
+        Check.due("an entry's time", c.meter.entry(1, 0), 0);
+        Check.due("an entry's register", c.meter.entry(1, 1), 0);
+        c.set(4, 8, 6, 13);
+        Check.due("entries() when the capacity was not set", c.meter.entries(), 2);
+        c.set(4, 3, Bytes.columns(4));
+        Check.due("entries() when the columns were not set", c.meter.entries(), 2);
+    }
+
+    // ---- results of acting
+
+    private static void actingOnNoSuchObject() {
+        Check.sentence("Terms", "Of acting: 4");
+        for (Client c : new Client[] {Client.reader(1), Client.manager(1)}) {
+            for (int o : new int[] {5, 6, 255}) {
+                for (int m = 0; m <= 3; m++) {
+                    Check.due("act on " + o + ", " + m, c.act(o, m, 0), 4);
+                }
+            }
+        }
+    }
+
+    private static void actingByNoSuchMethod() {
+        Check.sentence("Terms", "9: it is none of method 1 of a register, 1 or 2 of the profile, 3 of the clock");
+        for (int o = 0; o <= 4; o++) {
+            Client reader = Client.reader(1);
+            Client manager = Client.manager(1);
+            for (int m : new int[] {0, 1, 2, 3, 4, 5, 255}) {
+                Check.due("a reader acts on " + o + ", " + m, reader.act(o, m, 1), isMethod(o, m) ? 3 : 9);
+                Check.due("a manager acts on " + o + ", " + m, manager.act(o, m, 1), isMethod(o, m) ? 0 : 9);
+            }
+        }
     }
 
     private static void actingWithoutLeave() {
-        Client reader = Client.reader(2);
-        Client manager = Client.manager(2);
-        reader.meter.count(1, 5);
-        for (int o = 0; o <= 6; o++) {
-            for (int m = 0; m <= 5; m++) {
-                boolean method = o == 0 ? m == 3 : o == 4 ? m == 1 || m == 2 : m == 1;
-                int missing = o > 4 ? 4 : method ? 0 : 9;
-                Check.due("reader acts " + o + ", " + m, reader.act(o, m, 0), missing == 0 ? 3 : missing);
-                Check.due("manager acts " + o + ", " + m, manager.act(o, m, 0),
-                    missing == 0 && o == 0 ? 13 : missing);
-            }
-        }
-        Check.due("nothing was done for the reader", reader.meter.register(1), 5);
-        Check.due("nor captured", reader.meter.entries(), 0);
+        Check.sentence("Terms", "3 of the clock; 3: the association is not 2");
+        Client c = Client.reader(2);
+        c.meter.count(1, 5);
+        c.meter.run(7);
+        Check.due("a reader acts on a register", c.act(1, 1, 0), 3);
+        Check.due("a reader captures", c.act(4, 2, 0), 3);
+        Check.due("a reader empties", c.act(4, 1, 0), 3);
+        Check.due("a reader acts on the clock", c.act(0, 3, 5), 3);
+        Check.due("a reader acts on the clock with 0", c.act(0, 3, 0), 3);
+        Check.due("register(1)", c.meter.register(1), 5);
+        Check.due("entries()", c.meter.entries(), 0);
+        Check.due("time()", c.meter.time(), 7);
     }
 
-    private static void roundingTheTime() {
-        int[][] rows = {{0, 7, 0}, {6, 7, 0}, {7, 7, 7}, {13, 7, 7}, {14, 1, 14}, {999, 255, 765},
-            {Integer.MAX_VALUE, 255, Integer.MAX_VALUE - 127}, {Integer.MAX_VALUE, 2, Integer.MAX_VALUE - 1}};
+    private static void actingOnTheClockWith0() {
+        Check.sentence("Terms", "13: for the clock p is 0");
+        Client c = Client.manager(2);
+        c.set(0, 2, 6, 15);
+        Check.due("the clock with 0", c.act(0, 3, 0), 13);
+        Check.due("time()", c.meter.time(), 15);
+        Check.due("the clock with 1", c.act(0, 3, 1), 0);
+        Check.due("time()", c.meter.time(), 15);
+        Check.due("a register with 0", c.act(1, 1, 0), 0);
+        Check.due("the profile with 0", c.act(4, 2, 0), 0);
+        Check.due("the profile emptied with 0", c.act(4, 1, 0), 0);
+    }
+
+    private static void actingOnRegisters() {
+        Check.sentence("Terms", "Method 1 of a register: it becomes 0");
+        for (int o = 1; o <= 3; o++) {
+            Client c = Client.manager(2);
+            for (int i = 1; i <= 3; i++) {
+                c.meter.count(i, 10 * i);
+            }
+            Check.due("act on " + o, c.act(o, 1, 255), 0);
+            for (int i = 1; i <= 3; i++) {
+                Check.due("register(" + i + ")", c.meter.register(i), i == o ? 0 : 10 * i);
+            }
+            Check.due("act on it once more", c.act(o, 1, 0), 0);
+            Check.due("register(" + o + ")", c.meter.register(o), 0);
+        }
+    }
+
+    private static void actingOnTheProfile() {
+        Check.sentence("Terms", "Of the profile 1: all entries are gone; 2: it captures");
+        Client c = Client.manager(2);
+        Check.due("empty what is empty", c.act(4, 1, 0), 0);
+        c.meter.run(7);
+        c.meter.count(1, 3);
+        for (int i = 1; i <= 3; i++) {
+            Check.due("capture", c.act(4, 2, 255), 0);
+            Check.due("entries()", c.meter.entries(), Math.min(2, i));
+        }
+        Check.due("its time", c.meter.entry(1, 0), 7);
+        Check.due("its register", c.meter.entry(1, 1), 3);
+        Check.due("empty", c.act(4, 1, 255), 0);
+        Check.due("entries() then", c.meter.entries(), 0);
+        Check.refused("entry(0, 0) then", IndexOutOfBoundsException.class, () -> c.meter.entry(0, 0));
+        Check.due("the columns stay", c.get(4, 3), Bytes.got(1, 1, 17, 1));
+        Check.due("the capacity stays", c.get(4, 8), Bytes.got(6, 0, 0, 0, 2));
+        c.capture();
+        Check.due("entries() anew", c.meter.entries(), 1);
+    }
+
+    private static void actingOnTheClock() {
+        Check.sentence("Terms", "Of the clock 3: the time becomes the greatest multiple of p that is not greater");
+        int[][] rows = {{0, 7, 0}, {6, 7, 0}, {7, 7, 7}, {8, 7, 7}, {13, 7, 7}, {14, 7, 14}, {14, 1, 14}, {254, 255, 0},
+            {255, 255, 255}, {256, 255, 255}, {999, 255, 765}, {MAX, 255, MAX - 127}, {MAX, 2, MAX - 1}, {MAX, 1, MAX}};
         Client c = Client.manager(2);
         c.set(4, 4, 6, 7);
         for (int[] row : rows) {
@@ -315,138 +607,6 @@ public final class ObjectsTest {
             Check.due("round " + row[0] + " by " + row[1], c.act(0, 3, row[1]), 0);
             Check.due("time() then", c.meter.time(), row[2]);
         }
-        c.set(0, 2, 6, 15);
-        Check.due("round by 0", c.act(0, 3, 0), 13);
-        Check.due("time() is as it was", c.meter.time(), 15);
         Check.due("rounding captures nothing", c.meter.entries(), 0);
-    }
-
-    /** A manager's meter with so many columns and entries, at the times 1, 2 and so on. */
-    private static Client withEntries(int columns, int entries) {
-        Client c = Client.manager(12);
-        c.set(4, 3, columns(Arrays.copyOf(new int[] {1, 2, 3}, columns)));
-        for (int o = 1; o <= 3; o++) {
-            c.meter.count(o, 0x01010101 * o);
-        }
-        c.set(4, 4, 6, 1);
-        c.meter.run(entries);
-        return c;
-    }
-
-    private static int[] encoded(int columns, int entries) {
-        List<Integer> value = new ArrayList<>(List.of(1, entries));
-        for (int t = 1; t <= entries; t++) {
-            value.addAll(List.of(2, columns + 1, 6, 0, 0, 0, t));
-            for (int o = 1; o <= columns; o++) {
-                value.addAll(List.of(5, o, o, o, o));
-            }
-        }
-        return value.stream().mapToInt(Integer::intValue).toArray();
-    }
-
-    private static int[] block(int[] value, int k) {
-        int from = 40 * (k - 1);
-        int to = Math.min(from + 40, value.length);
-        int[] block = new int[4 + to - from];
-        block[0] = 196;
-        block[1] = 2;
-        block[2] = to == value.length ? 1 : 0;
-        block[3] = k;
-        System.arraycopy(value, from, block, 4, to - from);
-        return block;
-    }
-
-    private static void blocks() {
-        for (int columns = 1; columns <= 3; columns++) {
-            for (int entries = 0; entries <= 12; entries++) {
-                Client c = withEntries(columns, entries);
-                int[] value = encoded(columns, entries);
-                int[] answer = c.get(4, 2);
-                String what = entries + " entries of " + columns + " columns";
-                if (value.length <= 40) {
-                    Check.due(what, Arrays.copyOf(answer, 3), 196, 1, 0);
-                    Check.due(what, Arrays.copyOfRange(answer, 3, answer.length), value);
-                    Check.due("no long value", c.ask(192, 2, 0), 196, 1, 1, 16);
-                    continue;
-                }
-                int last = (value.length + 39) / 40;
-                for (int k = 1; k <= last; k++) {
-                    Check.due(what + ", block " + k, answer, block(value, k));
-                    answer = c.ask(192, 2, k);
-                }
-                Check.due("behind the last block", answer, 196, 1, 1, 16);
-            }
-        }
-    }
-
-    /** Values of one column have 2 + 12 e bytes, of two 2 + 17 e, of three 2 + 22 e: only these are near 40 k. */
-    private static void blocksOfFortyBytes() {
-        Client c = withEntries(1, 3);
-        Check.due("38 bytes go at once", c.get(4, 2).length, 3 + 38);
-        c = withEntries(3, 9);
-        int[] value = encoded(3, 9);
-        Check.due("200 bytes are five whole blocks", value.length, 200);
-        c.get(4, 2);
-        for (int k = 1; k < 4; k++) {
-            c.ask(192, 2, k);
-        }
-        Check.due("the fifth block is whole, and the last", c.ask(192, 2, 4), block(value, 5));
-        Check.due("it has so many bytes", block(value, 5).length, 44);
-        Check.due("there is no sixth", c.ask(192, 2, 5), 196, 1, 1, 16);
-    }
-
-    private static void blocksOutOfOrder() {
-        for (int k : new int[] {0, 2, 3, 255}) {
-            Client c = withEntries(3, 12);
-            c.get(4, 2);
-            Check.due("block behind " + k, c.ask(192, 2, k), 196, 1, 1, 19);
-            Check.due("the long value is gone", c.ask(192, 2, 1), 196, 1, 1, 16);
-        }
-        Client c = withEntries(3, 12);
-        c.get(4, 2);
-        c.ask(192, 2, 1);
-        Check.due("block behind 1 once more", c.ask(192, 2, 1), 196, 1, 1, 19);
-        Check.due("the long value is gone then", c.ask(192, 2, 2), 196, 1, 1, 16);
-    }
-
-    private static void aLongValueStaysAsItWas() {
-        Client c = withEntries(2, 12);
-        int[] value = encoded(2, 12);
-        c.get(4, 2);
-        c.meter.run(9);
-        c.meter.count(1, 5);
-        Check.due("block 2 of what was", c.ask(192, 2, 1), block(value, 2));
-        c.askInVain(192, 2, 2);
-        c.meter.run(9);
-        Check.due("block 3 once more", c.ask(192, 2, 2), block(value, 3));
-        c.send(16, 98);
-        c.send(17, 98);
-        c.put(1, 2);
-        c.deliver();
-        Check.due("no answer, no end of the long value", c.ask(192, 2, 3), block(value, 4));
-        c.get(4, 2);
-        Check.due("a second get begins anew", c.ask(192, 2, 1)[3], 2);
-    }
-
-    private static void aLongValueEnds() {
-        int[][] payloads = {{0}, {98, 0}, {96, 1, 0, 0, 0, 0}, {192, 1, 0, 1, 0}, {192, 1, 9, 1, 0}, {192, 2},
-            {192, 2, 1, 0}, {193, 0, 2}, {195, 0, 0, 0}, {195, 4, 2, 0}, {192, 1, 4, 2, 1, 0, 0, 0, 1, 0, 0, 0, 1}};
-        for (int[] payload : payloads) {
-            Client c = withEntries(3, 12);
-            c.get(4, 2);
-            c.ask(payload);
-            Check.due("long value after " + Arrays.toString(payload), c.ask(192, 2, 1), 196, 1, 1, 16);
-        }
-        Client c = withEntries(3, 12);
-        c.get(4, 2);
-        c.ask(98);
-        Check.due("no block without association", c.ask(192, 2, 1), 216, 1);
-        c.ask(96, 1, 0, 0, 0, 0);
-        Check.due("nor with one", c.ask(192, 2, 1), 196, 1, 1, 16);
-        c.get(4, 2);
-        c.send(147);
-        c.ask(96, 1, 0, 0, 0, 0);
-        Check.due("nor after connecting", c.ask(192, 2, 1), 196, 1, 1, 16);
-        Check.due("a reader gets long values too", c.get(4, 2)[1], 2);
     }
 }
