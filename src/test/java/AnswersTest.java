@@ -23,6 +23,7 @@ public final class AnswersTest {
         blocksOfAllSizes();
         lastBlockIsWhole();
         lastBlockWasSent();
+        lastBlockWasLost();
         noLongValue();
         notTheBlockSentLast();
         theNextBlock();
@@ -340,6 +341,17 @@ public final class AnswersTest {
         Check.due("behind the last one", c.nextBlock(3), 196, 1, 1, 16);
     }
 
+    /** It was sent, though nobody got it: only the frame's numbers bring it once more. */
+    private static void lastBlockWasLost() {
+        Check.sentence("Terms", "It is a long value no more when its last block was sent");
+        Client c = withEntries(3, 3);
+        int[] value = encoded(3, 1, 3);
+        c.tell(192, 1, 4, 2, 0);
+        c.askInVain(192, 2, 1);
+        Check.due("the last block once more", c.nextBlock(1), block(value, 2));
+        Check.due("behind it", c.nextBlock(2), 196, 1, 1, 16);
+    }
+
     private static void noLongValue() {
         Check.sentence("Terms", "196, 1, 1, 16 when there is no long value");
         for (int k : new int[] {0, 1, 2, 7, 255}) {
@@ -368,11 +380,12 @@ public final class AnswersTest {
     }
 
     private static void theNextBlock() {
-        Check.sentence("Terms", "otherwise the next block is sent (and it stays the long value)");
+        Check.sentence("Terms", "SENDING block k (from 1 on)");
         Client c = withEntries(3, 12);
         int[] value = encoded(3, 1, 12);
         Check.due("the most that a value can have", value.length, 266);
         Check.due("block 1", c.get(4, 2), block(value, 1));
+        Check.sentence("Terms", "otherwise the next block is sent (and it stays the long value)");
         for (int k = 1; k <= 6; k++) {
             Check.due("block behind " + k, c.nextBlock(k), block(value, k + 1));
         }

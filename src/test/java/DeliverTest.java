@@ -7,6 +7,7 @@ public final class DeliverTest {
         connecting();
         connectingOnceMore();
         connectingWithAPayload();
+        repliesWithoutPayload();
         disconnecting();
         disconnectingWithAPayload();
         requestsWhenNotConnected();
@@ -143,6 +144,16 @@ public final class DeliverTest {
         Client on = Client.reader(1);
         Check.due("147 with a payload of a reader", on.controlFor(147, 0), -1);
         Check.due("link() of a reader", on.meter.link(), linkAt(1) + 4);
+    }
+
+    private static void repliesWithoutPayload() {
+        Check.sentence("Terms", "(all replies without payload unless it is said)");
+        Client c = new Client(1);
+        Check.due("31 for 83", c.send(83), Bytes.frame(31));
+        Check.due("31 for a request", c.send(16, 98), Bytes.frame(31));
+        Check.due("115 for 147", c.send(147), Bytes.frame(115));
+        Check.due("17 for a request out of step", c.send(information(3, 3), 98), Bytes.frame(17));
+        Check.due("115 for 83", c.send(83), Bytes.frame(115));
     }
 
     private static void disconnecting() {

@@ -5,6 +5,8 @@ public final class LineTest {
     private static final int[] NO_BYTES = {-1, 256, -128, 257, MIN, MAX};
 
     public static void main(String[] args) {
+        bytesAre0To255();
+        atMost80Bytes();
         bothAreEmptyAtFirst();
         putBehindTheLine();
         putOfNoByte();
@@ -39,6 +41,41 @@ public final class LineTest {
     private static int poke(CountedMeter m, int i, int b) {
         m.poke(i, b);
         return 0;
+    }
+
+    private static void bytesAre0To255() {
+        Check.sentence("Terms", "BYTES are 0 .. 255");
+        CountedMeter m = newMeter();
+        for (int b = 0; b <= 255; b++) {
+            if (b % 80 == 0) {
+                m.clear();
+            }
+            Check.due("put(" + b + ")", m.put(b), b % 80 + 1);
+        }
+        Check.refused("put(-1)", IllegalArgumentException.class, () -> m.put(-1));
+        Check.refused("put(256)", IllegalArgumentException.class, () -> m.put(256));
+        CountedMeter poked = newMeter();
+        poked.put(0);
+        for (int b = 0; b <= 255; b++) {
+            poked.poke(0, b);
+        }
+        Check.refused("poke(0, -1)", IllegalArgumentException.class, () -> poke(poked, 0, -1));
+        Check.refused("poke(0, 256)", IllegalArgumentException.class, () -> poke(poked, 0, 256));
+    }
+
+    private static void atMost80Bytes() {
+        Check.sentence("Terms", "THE LINE is a row of at most 80 bytes");
+        CountedMeter m = newMeter();
+        fill(m, 60);
+        Check.due("the longest frame", m.frame(16), 69);
+        Check.due("putInt behind it", m.putInt(0), 73);
+        Check.due("putInt behind that", m.putInt(0), 77);
+        Check.refused("one putInt more", IllegalStateException.class, () -> m.putInt(0));
+        fill(m, 2);
+        Check.due("the last put", m.put(0), 80);
+        Check.refused("one put more", IllegalStateException.class, () -> m.put(0));
+        Check.refused("a frame of them", IllegalStateException.class, () -> m.frame(16));
+        Check.due("deliver of 80 bytes", m.deliver(false), 0);
     }
 
     private static void bothAreEmptyAtFirst() {

@@ -35,6 +35,7 @@ public final class MeterTest {
         noSuchK();
         linkWhenNotConnected();
         linkWhenConnected();
+        all512Calls();
         Check.end();
     }
 
@@ -478,6 +479,17 @@ public final class MeterTest {
             int step = i % 8;
             Check.due("link() at step " + i, c.meter.link(), 1 + 4 * association + 16 * step + 128 * step);
         }
+    }
+
+    private static void all512Calls() {
+        Check.sentence("What it is", "An object is used for at most 512 calls after it has been made");
+        CountedMeter m = new CountedMeter(1, 1);
+        for (int call = 1; call <= 510; call += 2) {
+            m.run(1000);
+            Check.due("count(1, 1) as call " + (call + 1), m.count(1, 1), (call + 1) / 2);
+        }
+        Check.due("time() as call 511", m.time(), 255000);
+        Check.due("register(1) as call 512", m.register(1), 255);
     }
 
     private static void entryDue(Client c, int i, int... want) {
