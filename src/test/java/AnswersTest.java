@@ -273,7 +273,7 @@ public final class AnswersTest {
 
     /** Values have 2 + 12 e, 2 + 17 e or 2 + 22 e bytes: none has 39 to 45. */
     private static void atMost40Bytes() {
-        Check.sentence("Terms", "if these are at most 40: 196, 1, 0, v; otherwise v is the long value, and its first block is sent");
+        Check.sentence("Terms", "Otherwise, with the bytes v of the value: if these are at most 40: 196, 1, 0, v; otherwise v is the long value, and its first block is sent");
         int[][] atOnce = {{1, 3, 38}, {2, 2, 36}, {3, 1, 24}};
         for (int[] row : atOnce) {
             int[] value = encoded(row[0], 1, row[1]);

@@ -12,6 +12,7 @@ public final class DeliverTest {
         disconnectingWithAPayload();
         requestsWhenNotConnected();
         informationWithoutAPayload();
+        numbersFrom0To7();
         requestsInStep();
         numbersOfTheReply();
         theLatestOnceMore();
@@ -213,6 +214,17 @@ public final class DeliverTest {
         Check.due("link() when connected", on.meter.link(), linkAt(1));
     }
 
+    private static void numbersFrom0To7() {
+        Check.sentence("Terms", "when it is, it has the numbers EXPECTED and NEXT (0 .. 7)");
+        for (int steps : new int[] {0, 1, 6, 7, 8, 9, 15, 16}) {
+            Client c = Client.atStep(steps);
+            Check.due("EXPECTED after " + steps, c.meter.link() >> 4 & 7, steps % 8);
+            Check.due("NEXT after " + steps, c.meter.link() >> 7, steps % 8);
+            c.controlFor(83);
+            Check.due("no numbers when it is not", c.meter.link(), 0);
+        }
+    }
+
     private static void requestsInStep() {
         Check.sentence("Terms", "If s is EXPECTED and r is NEXT: both grow by 1 (0 after 7)");
         Client c = Client.connected(1);
@@ -226,7 +238,7 @@ public final class DeliverTest {
     }
 
     private static void numbersOfTheReply() {
-        Check.sentence("Terms", "with NEXT as it was for s and EXPECTED as it is for r, and with the ANSWER to the payload");
+        Check.sentence("Terms", "and it replies an information frame, with NEXT as it was for s and EXPECTED as it is for r, and with the ANSWER to the payload");
         for (int step : new int[] {0, 1, 6, 7, 8}) {
             Client c = Client.atStep(step);
             int now = step % 8;

@@ -7,7 +7,8 @@ public final class FramesTest {
         theCheckOfManyBytes();
         framesWithWrittenBytes();
         theLowerByteOfACheckIsFirst();
-        theFlags();
+        theFirstFlag();
+        theLastFlag();
         theNumberOfBytes();
         theAddress();
         theCheckOfTheHead();
@@ -50,7 +51,7 @@ public final class FramesTest {
     }
 
     private static void theCheckOfManyBytes() {
-        Check.sentence("Terms", "for each byte, c becomes c xor the byte, and then eight times c / 2 (rounded down), xor 33800 if c was odd");
+        Check.sentence("Terms", "THE CHECK of some bytes: c is 65535 at first; for each byte, c becomes c xor the byte, and then eight times c / 2 (rounded down), xor 33800 if c was odd");
         for (int b = 0; b < 256; b++) {
             int refusal = b == 192 || b == 193 || b == 195 ? 1 : 2;
             frame("60 bytes " + b, Bytes.frame(82, 216, refusal), Bytes.frame(50, Bytes.repeated(b, 60)));
@@ -81,15 +82,22 @@ public final class FramesTest {
         noFrame("a frame with its last check turned round", turned);
     }
 
-    private static void theFlags() {
+    private static void theFirstFlag() {
         Check.sentence("Terms", "A FRAME is a row of bytes: 126");
         for (int b : new int[] {0, 125, 127, 255}) {
             noFrame("a bare frame that begins with " + b, changed(Bytes.frame(147), 0, b));
-            noFrame("a bare frame that ends with " + b, changed(Bytes.frame(147), 6, b));
             noFrame("a frame that begins with " + b, changed(Bytes.frame(50, 98), 0, b));
-            noFrame("a frame that ends with " + b, changed(Bytes.frame(50, 98), 9, b));
         }
         frame("a payload of 126", Bytes.frame(82, 216, 2), Bytes.frame(50, 126, 126, 126));
+    }
+
+    private static void theLastFlag() {
+        Check.sentence("Terms", "then, if it has a PAYLOAD (1 .. 60 bytes), that and the check of all from n on; 126");
+        for (int b : new int[] {0, 125, 127, 255}) {
+            noFrame("a bare frame that ends with " + b, changed(Bytes.frame(147), 6, b));
+            noFrame("a frame that ends with " + b, changed(Bytes.frame(50, 98), 9, b));
+        }
+        frame("a frame that ends with 126", Bytes.frame(82, 99), changed(Bytes.frame(50, 98), 9, 126));
     }
 
     private static void theNumberOfBytes() {

@@ -79,7 +79,7 @@ public final class LineTest {
     }
 
     private static void bothAreEmptyAtFirst() {
-        Check.sentence("Terms", "both are empty at first");
+        Check.sentence("Terms", "THE LINE is a row of at most 80 bytes, THE REPLY a row of bytes; both are empty at first");
         CountedMeter m = newMeter();
         Check.refused("reply(0)", IndexOutOfBoundsException.class, () -> m.reply(0));
         Check.refused("poke(0, 0)", IndexOutOfBoundsException.class, () -> poke(m, 0, 0));
@@ -241,7 +241,7 @@ public final class LineTest {
     // ---- promise 12
 
     private static void frameOfThePayload() {
-        Check.sentence("Promise 12", "The line becomes the frame with this control that has the line as payload");
+        Check.sentence("Promise 12", "The line becomes the frame with this control that has the line as payload (none if it is empty): how many bytes there are");
         CountedMeter m = newMeter();
         m.put(1);
         Check.due("frame of one byte", m.frame(16), 10);

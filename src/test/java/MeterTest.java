@@ -42,7 +42,7 @@ public final class MeterTest {
     // ---- terms
 
     private static void timeAtFirst() {
-        Check.sentence("Terms", "a TIME (0 .. 2^31 - 1, 0 at first)");
+        Check.sentence("Terms", "THE METER has a TIME (0 .. 2^31 - 1, 0 at first)");
         Check.due("time()", new Client(5).meter.time(), 0);
         Check.due("attribute 2 of the clock", Client.reader(5).get(0, 2), Bytes.got(6, 0, 0, 0, 0));
     }
@@ -62,7 +62,7 @@ public final class MeterTest {
         Check.due("attribute 4 of the profile", c.get(4, 4), Bytes.got(6, 0, 0, 0, 0));
         Check.sentence("Terms", "COLUMNS (one to three different registers in any order; at first just 1)");
         Check.due("attribute 3 of the profile", c.get(4, 3), Bytes.got(1, 1, 17, 1));
-        Check.sentence("Terms", "ENTRIES (none at first)");
+        Check.sentence("Terms", "at first just 1) and ENTRIES (none at first)");
         Check.due("entries()", c.meter.entries(), 0);
         Check.due("attribute 2 of the profile", c.get(4, 2), Bytes.got(1, 0));
         Check.due("attribute 7 of the profile", c.get(4, 7), Bytes.got(6, 0, 0, 0, 0));
@@ -76,7 +76,7 @@ public final class MeterTest {
     }
 
     private static void capturesComeBehind() {
-        Check.sentence("Terms", "an entry with the time and the columns' registers comes behind the others");
+        Check.sentence("Terms", "To CAPTURE: an entry with the time and the columns' registers comes behind the others");
         Client c = Client.manager(3);
         for (int i = 1; i <= 3; i++) {
             c.meter.run(i);
@@ -181,7 +181,7 @@ public final class MeterTest {
     }
 
     private static void capacityBetween() {
-        Check.sentence("Terms", "a CAPACITY (1 .. 12)");
+        Check.sentence("Terms", "and a PROFILE: a CAPACITY (1 .. 12)");
         for (int capacity = 1; capacity <= 12; capacity++) {
             capacityDue(capacity, capacity);
         }

@@ -6,6 +6,7 @@ public final class ObjectsTest {
     private static final int MIN = Integer.MIN_VALUE;
 
     public static void main(String[] args) {
+        whichObjects();
         names();
         theTime();
         valuesOfRegisters();
@@ -16,6 +17,7 @@ public final class ObjectsTest {
         entriesInUseAndCapacity();
         entriesFromTo();
         boundsWithoutASign();
+        whatCanNotBeHad();
         gettingNoSuchObject();
         gettingNoSuchAttribute();
         gettingWithBounds();
@@ -37,6 +39,7 @@ public final class ObjectsTest {
         actingByNoSuchMethod();
         actingWithoutLeave();
         actingOnTheClockWith0();
+        actingIsDone();
         actingOnRegisters();
         actingOnTheProfile();
         actingOnTheClock();
@@ -60,6 +63,25 @@ public final class ObjectsTest {
     }
 
     // ---- attributes
+
+    private static void whichObjects() {
+        Check.sentence("Terms", "OBJECTS: 0 is the clock, 1 .. 3 are the registers, 4 is the profile");
+        Client c = Client.manager(7);
+        c.meter.run(9);
+        Check.due("attribute 2 of 0 when seconds went by", c.get(0, 2), Bytes.got(6, 0, 0, 0, 9));
+        for (int o = 1; o <= 3; o++) {
+            c.meter.count(o, 10 * o);
+            Check.due("attribute 2 of " + o + " when it grew", c.get(o, 2), Bytes.got(5, 0, 0, 0, 10 * o));
+        }
+        Check.due("attribute 2 of 4", c.get(4, 2), Bytes.got(1, 0));
+        c.capture();
+        Check.due("attribute 2 of 4 when it captured", c.get(4, 2), entryOf(9, 10));
+    }
+
+    /** The answer with one entry of one column. */
+    private static int[] entryOf(int time, int v) {
+        return Bytes.got(Bytes.joined(new int[] {1, 1, 2, 2}, Bytes.tagged(6, time), Bytes.tagged(5, v)));
+    }
 
     private static void names() {
         Check.sentence("Terms", "ATTRIBUTES of all of them: 1: 9, 2, 1, o");
@@ -105,7 +127,7 @@ public final class ObjectsTest {
     }
 
     private static void theEntries() {
-        Check.sentence("Terms", "2: 1, the number of entries, and for each of them, in order, 2, the number of columns plus 1");
+        Check.sentence("Terms", "Of the profile: 2: 1, the number of entries, and for each of them, in order, 2, the number of columns plus 1, then 6 and four bytes, its time, then for each column 5 and four bytes");
         Client c = Client.manager(2);
         Check.due("no entries", c.get(4, 2), Bytes.got(1, 0));
         c.set(4, 3, Bytes.columns(2, 1));
@@ -211,6 +233,16 @@ public final class ObjectsTest {
     }
 
     // ---- results of getting
+
+    private static void whatCanNotBeHad() {
+        Check.sentence("Terms", "If it can not be had: 196, 1, 1 and the RESULT");
+        Client c = Client.reader(1);
+        Check.due("no such object", c.send(50, 192, 1, 5, 1, 0), Bytes.frame(82, 196, 1, 1, 4));
+        Check.due("no such attribute", c.send(84, 192, 1, 0, 3, 0), Bytes.frame(116, 196, 1, 1, 9));
+        Check.due("some of what has no parts", c.send(118, 192, 1, 0, 2, 1, 0, 0, 0, 0, 0, 0, 0, 9),
+            Bytes.frame(150, 196, 1, 1, 13));
+        Check.due("what can be had then", c.get(0, 2), Bytes.got(6, 0, 0, 0, 0));
+    }
 
     private static void gettingNoSuchObject() {
         Check.sentence("Terms", "RESULTS of getting: 4: there is no such object");
@@ -557,6 +589,18 @@ public final class ObjectsTest {
         Check.due("a register with 0", c.act(1, 1, 0), 0);
         Check.due("the profile with 0", c.act(4, 2, 0), 0);
         Check.due("the profile emptied with 0", c.act(4, 1, 0), 0);
+    }
+
+    private static void actingIsDone() {
+        Check.sentence("Terms", "13: for the clock p is 0; 0: done");
+        for (int p : new int[] {1, 2, 128, 255}) {
+            for (int[] method : new int[][] {{1, 1}, {2, 1}, {3, 1}, {4, 1}, {4, 2}, {0, 3}}) {
+                Client c = Client.manager(1);
+                c.put(195, method[0], method[1], p);
+                c.meter.ask();
+                Check.due("act on " + method[0] + ", " + method[1] + " with " + p, c.deliver(), Bytes.frame(82, 199, 0));
+            }
+        }
     }
 
     private static void actingOnRegisters() {
